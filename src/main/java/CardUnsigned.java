@@ -899,21 +899,16 @@ public final class CardUnsigned {
                     stack[height] = step < Steps.NAME ? step : names[step - Steps.NAME];
                     height++;
                 } else {
-                    height = operate(step - Steps.OPERATOR, height);
+                    int left = Math.max(0, height - operandsOf(step));
+                    stack[left] = worked(step - Steps.OPERATOR, stack[left], stack[Math.max(left, height - 1)]);
+                    height = left + 1;
                 }
             }
             return 0;
         }
 
-        /** How high the stack is then. */
-        private int operate(int sign, int height) {
-            boolean ahead = sign == '!' || sign == Steps.NEGATIVE;
-            int left = ahead ? height - 1 : height - 2;
-            if (left < 0 || height > stack.length) {
-                return height;
-            }
-            stack[left] = worked(sign, stack[left], stack[height - 1]);
-            return left + 1;
+        private int operandsOf(int step) {
+            return step == Steps.OPERATOR + '!' || step == Steps.OPERATOR + Steps.NEGATIVE ? 1 : 2;
         }
 
         private int worked(int sign, int left, int right) {
@@ -969,7 +964,7 @@ public final class CardUnsigned {
             names[Steps.KNOWERS] = secret < 0 ? 0 : Integer.bitCount(office.whoKnows(secret));
             names[Steps.STAMP] = office.numbers[Office.STAMP][card];
             names[Steps.CARD] = card;
-            int who = office.whoCould(card);
+            int who = office.whoCouldWithSecret(card, secret);
             int all = 0;
             for (int one = 0; one < office.people; one++) {
                 weights[one] = (who >> one & 1) == 0 ? 0 : countFor(card, one);
