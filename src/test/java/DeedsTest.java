@@ -13,14 +13,6 @@ public final class DeedsTest {
         check.end();
     }
 
-    private static CardUnsigned office(int people) {
-        CardUnsigned x = new CardUnsigned();
-        for (int i = 0; i < people; i++) {
-            x.person(i % 4);
-        }
-        return x;
-    }
-
     private static void led(int promise, CardUnsigned x, int... due) {
         for (int what = 0; what < 5; what++) {
             check.due(promise, "led(" + what + ")", x.led(what), due[what]);
@@ -28,7 +20,7 @@ public final class DeedsTest {
     }
 
     private static void pass() {
-        CardUnsigned x = office(0);
+        CardUnsigned x = Given.office(0);
         check.due(30, "pass(0)", x.pass(0), -1);
         check.due(30, "pass(-1)", x.pass(-1), -1);
         check.due(30, "pass(100)", x.pass(100), -1);
@@ -42,7 +34,7 @@ public final class DeedsTest {
     }
 
     private static void send() {
-        CardUnsigned x = office(3);
+        CardUnsigned x = Given.office(3);
         x.pass(50);
         x.mend(1, 5, 4);
         x.mend(1, 0, 51);
@@ -78,7 +70,7 @@ public final class DeedsTest {
     }
 
     private static void thanked() {
-        CardUnsigned x = office(3);
+        CardUnsigned x = Given.office(3);
         x.send(10, 0);
         x.card(0, 0);
         x.send(20, 0);
@@ -96,7 +88,7 @@ public final class DeedsTest {
     }
 
     private static void image() {
-        CardUnsigned x = office(3);
+        CardUnsigned x = Given.office(3);
         check.due(35, "no image", x.back(), -5);
         x.pass(10);
         x.send(10, 0);
@@ -130,7 +122,7 @@ public final class DeedsTest {
     }
 
     private static void undoRedo() {
-        CardUnsigned x = office(2);
+        CardUnsigned x = Given.office(2);
         x.card(0, 0);
         check.due(36, "none", x.undo(), -5);
         check.due(37, "none", x.redo(), -5);
@@ -168,7 +160,7 @@ public final class DeedsTest {
     }
 
     private static void fortyAreKept() {
-        CardUnsigned x = office(1);
+        CardUnsigned x = Given.office(1);
         for (int v = 1; v <= 45; v++) {
             x.mend(0, 11, v == 10 ? 99 : v);
             check.due(36, "count(3)", x.count(3), Math.min(v, 40));
@@ -185,7 +177,7 @@ public final class DeedsTest {
     }
 
     private static void otherCallsAreNoChanges() {
-        CardUnsigned x = office(2);
+        CardUnsigned x = Given.office(2);
         x.mend(0, 3, 5);
         x.undo();
         x.person(0);
@@ -196,7 +188,7 @@ public final class DeedsTest {
         x.image();
         x.back();
         x.body(0);
-        LawTest.tell(x, "1");
+        Given.law(x, "1");
         check.due(36, "deeds are none", x.undo(), -5);
         check.due(37, "redo behind deeds", x.redo(), 0);
         check.due(37, "shy", x.of(0, 3), 5);

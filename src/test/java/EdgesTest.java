@@ -60,7 +60,7 @@ public final class EdgesTest {
             x.body(random.nextInt(8));
         }
         if (random.nextBoolean()) {
-            LawTest.tell(x, "s-9999*9999/(h-1)%(k-c);l?-!-!-9");
+            Given.law(x, "s-9999*9999/(h-1)%(k-c);l?-!-!-9");
         }
     }
 

@@ -13,16 +13,9 @@ public final class LawTest {
         check.end();
     }
 
-    static int tell(CardUnsigned x, String text) {
-        for (int i = 0; i < text.length(); i++) {
-            x.feed(text.charAt(i));
-        }
-        return x.law();
-    }
-
     private static void law(String text, int due) {
         CardUnsigned x = new CardUnsigned();
-        check.due(8, "law of " + text, tell(x, text), due);
+        check.due(8, "law of " + text, Given.law(x, text), due);
         check.due(8, "the tape behind it", x.count(2), 0);
     }
 
@@ -105,7 +98,7 @@ public final class LawTest {
 
     private static void value(String text, int due) {
         CardUnsigned x = office();
-        check.due(8, "law of " + text, tell(x, text), 1);
+        check.due(8, "law of " + text, Given.law(x, text), 1);
         check.due(10, "counts(11) by " + text, x.counts(11), due);
     }
 
@@ -168,7 +161,7 @@ public final class LawTest {
         value("m", 1);
         value("c", 1);
         CardUnsigned x = office();
-        tell(x, "l*32+h*16+s*2+k*4+m*8+c+1");
+        Given.law(x, "l*32+h*16+s*2+k*4+m*8+c+1");
         check.due(10, "counts(1): no hand, secret, stamp", x.counts(1), 32 + 16 + 14 + 1);
         x.mend(1, 4, 2);
         x.mend(0, 7, 0);
@@ -183,12 +176,12 @@ public final class LawTest {
 
     private static void refusedLawKeepsTheOldOne() {
         CardUnsigned x = office();
-        check.due(8, "law", tell(x, "42"), 1);
-        check.due(8, "law at fault", tell(x, "43+"), -103);
+        check.due(8, "law", Given.law(x, "42"), 1);
+        check.due(8, "law at fault", Given.law(x, "43+"), -103);
         check.due(8, "counts behind a fault", x.counts(1), 42);
         check.due(8, "law of nothing", x.law(), -100);
         check.due(8, "counts behind a fault", x.counts(1), 42);
-        check.due(8, "law", tell(x, "44"), 1);
+        check.due(8, "law", Given.law(x, "44"), 1);
         check.due(8, "counts", x.counts(1), 44);
     }
 

@@ -13,24 +13,9 @@ public final class LooksTest {
         check.end();
     }
 
-    private static CardUnsigned office(int people) {
-        CardUnsigned x = new CardUnsigned();
-        for (int i = 0; i < people; i++) {
-            x.person(i % 4);
-        }
-        return x;
-    }
-
-    private static void fill(CardUnsigned x, int shelf, int sort, int... v) {
-        x.row(shelf, sort, v.length);
-        for (int i = 0; i < v.length; i++) {
-            x.put(shelf, i, v[i]);
-        }
-    }
-
     /** What all calls on shelves refuse alike. */
     private static void refusals() {
-        CardUnsigned x = office(1);
+        CardUnsigned x = Given.office(1);
         x.body(0);
         x.keep(1, 0);
         x.row(2, 0, 4);
@@ -59,8 +44,8 @@ public final class LooksTest {
 
     private static void looks() {
         refusals();
-        CardUnsigned x = office(3);
-        fill(x, 0, 0, 2, 1, 3, -1, 1, 2, 0, 127, -128);
+        CardUnsigned x = Given.office(3);
+        Given.row(x, 0, 0, 2, 1, 3, -1, 1, 2, 0, 127, -128);
         check.due(24, "how often 0", x.looks(0, 0), 1);
         check.due(24, "how often 1", x.looks(0, 1), 2);
         check.due(24, "how often 2", x.looks(0, 2), 2);
@@ -75,13 +60,13 @@ public final class LooksTest {
         check.due(24, "judged, in both", x.looks(0, -2), -2);
         x.mend(2, 1, 4);
         check.due(24, "judged, no more in", x.looks(0, -2), 5);
-        fill(x, 0, 0, 3, -1, 9);
+        Given.row(x, 0, 0, 3, -1, 9);
         check.due(24, "nobody", x.looks(0, -1), -2);
     }
 
     private static void since() {
-        CardUnsigned x = office(3);
-        fill(x, 0, 0, 0, 0, 1, 2, 0, 1, 1, 2, 2, 7);
+        CardUnsigned x = Given.office(3);
+        Given.row(x, 0, 0, 0, 0, 1, 2, 0, 1, 1, 2, 2, 7);
         check.due(25, "from 0 on", x.since(0, 0), 0);
         check.due(25, "from 2 on", x.since(0, 2), 1);
         check.due(25, "from 3 on", x.since(0, 3), 2);
@@ -91,31 +76,31 @@ public final class LooksTest {
     }
 
     private static void letters() {
-        CardUnsigned x = office(3);
+        CardUnsigned x = Given.office(3);
         x.card(0, 20);
         x.card(100, 300);
-        fill(x, 0, 1, 0, 1, 0, 2, 0, -1);
+        Given.row(x, 0, 1, 0, 1, 0, 2, 0, -1);
         check.due(26, "all can be", x.judge(0), -2);
         check.due(27, "ways", x.filled(0, 0), 2);
         check.due(27, "together", x.filled(0, 1), 10 * 2 * 12);
-        fill(x, 0, 1, 0, 1, 0, 0, 0, -1);
+        Given.row(x, 0, 1, 0, 1, 0, 0, 0, -1);
         check.due(26, "by whom it is to", x.judge(0), 1);
         check.due(27, "ways", x.filled(0, 0), 0);
         check.due(27, "together", x.filled(0, 1), 0);
-        fill(x, 0, 1, 0, 1, 2, 1);
+        Given.row(x, 0, 1, 0, 1, 2, 1);
         check.due(26, "no such card", x.judge(0), 1);
         check.due(27, "together", x.filled(0, 1), 0);
-        fill(x, 0, 1, -1, 1);
+        Given.row(x, 0, 1, -1, 1);
         check.due(26, "no such card", x.judge(0), 0);
-        fill(x, 0, 1, 0, 3);
+        Given.row(x, 0, 1, 0, 3);
         check.due(26, "no such one", x.judge(0), 0);
-        fill(x, 0, 1, 0, -2);
+        Given.row(x, 0, 1, 0, -2);
         check.due(26, "no such one", x.judge(0), 0);
-        fill(x, 0, 1, 0, 1, 0, 2, 0);
+        Given.row(x, 0, 1, 0, 1, 0, 2, 0);
         check.due(26, "the one is lacking", x.judge(0), 2);
         check.due(27, "lacking, ways", x.filled(0, 0), 0);
         check.due(27, "lacking, together", x.filled(0, 1), 0);
-        fill(x, 0, 1, 0, -1, 1, -1);
+        Given.row(x, 0, 1, 0, -1, 1, -1);
         check.due(26, "nobody could", x.judge(0), 1);
         check.due(27, "nobody could", x.filled(0, 0), 0);
         check.due(27, "nobody could", x.filled(0, 1), 0);
@@ -123,19 +108,19 @@ public final class LooksTest {
         check.due(26, "one could", x.judge(0), -2);
         check.due(27, "one could", x.filled(0, 0), 2);
         check.due(27, "one could", x.filled(0, 1), 12 * 12);
-        LawTest.tell(x, "0");
+        Given.law(x, "0");
         check.due(27, "all can be, but count nothing", x.filled(0, 0), 2);
         check.due(27, "all can be, but count nothing", x.filled(0, 1), 0);
     }
 
     private static void filledWraps() {
-        CardUnsigned x = office(8);
+        CardUnsigned x = Given.office(8);
         x.card(0, 0);
         int[] row = new int[60];
         for (int i = 1; i < 60; i += 2) {
             row[i] = -1;
         }
-        fill(x, 0, 1, row);
+        Given.row(x, 0, 1, row);
         long ways = 1;
         long together = 1;
         for (int i = 0; i < 30; i++) {
@@ -147,7 +132,7 @@ public final class LooksTest {
     }
 
     private static void hope() {
-        CardUnsigned x = office(4);
+        CardUnsigned x = Given.office(4);
         x.card(0, 30);
         check.due(28, "likes nobody", x.hope(0, 0), -2);
         check.due(28, "likes nobody, less", x.hope(0, 1), 0);
@@ -161,14 +146,14 @@ public final class LooksTest {
         check.due(28, "the likeliest of all, less", x.hope(0, 1), 0);
         check.due(28, "what 2", x.hope(0, 2), -1);
         check.due(28, "card 1", x.hope(1, 0), -1);
-        LawTest.tell(x, "h");
+        Given.law(x, "h");
         x.mend(0, 4, 2);
         check.due(28, "counts 0", x.hope(0, 0), -2);
         check.due(28, "counts 0, less", x.hope(0, 1), 0);
     }
 
     private static void drawn() {
-        CardUnsigned x = office(3);
+        CardUnsigned x = Given.office(3);
         x.card(100, 10);
         int[] times = new int[3];
         int z = -77;
@@ -186,7 +171,7 @@ public final class LooksTest {
         check.due(29, "one 3", x.drawn(0, 0, 1, 3), -1);
         check.due(29, "one -2", x.drawn(0, 0, 1, -2), -1);
         check.due(29, "card 1", x.drawn(1, 0, 1, 0), -1);
-        LawTest.tell(x, "0");
+        Given.law(x, "0");
         check.due(29, "for nobody", x.drawn(0, 5, 9, 0), 0);
         check.due(29, "for nobody, the most", x.drawn(0, 5, 9, -1), 0);
     }

@@ -52,13 +52,6 @@ public final class PeopleCardsTest {
         check.due(2, "count(0)", x.count(0), 8);
     }
 
-    private static void fill(CardUnsigned x, int shelf, int... v) {
-        x.row(shelf, 1, v.length);
-        for (int i = 0; i < v.length; i++) {
-            x.put(shelf, i, v[i]);
-        }
-    }
-
     private static void peopleFromRows() {
         CardUnsigned x = new CardUnsigned();
         check.due(3, "people, nothing there", x.people(0, 0, 1), 0);
@@ -73,7 +66,7 @@ public final class PeopleCardsTest {
         x.keep(0, 0);
         check.due(3, "people, a look", x.people(0, 0, 1), -12);
         check.due(3, "people, a look, n 0", x.people(0, 0, 0), -1);
-        fill(x, 1, 3, 255, 255, 0, 0, 0, 1, 2);
+        Given.row(x, 1, 1, 3, 255, 255, 0, 0, 0, 1, 2);
         check.due(3, "people, ends within a three", x.people(1, 0, 8), 2);
         check.due(3, "hand", x.of(0, 2), 3);
         check.due(3, "likes", x.of(0, 4), 255);
@@ -86,14 +79,14 @@ public final class PeopleCardsTest {
         check.due(3, "people, far behind the end", x.people(1, Integer.MAX_VALUE, 8), 0);
         check.due(3, "count(0)", x.count(0), 3);
         check.due(3, "people, one of two", x.people(1, 0, 1), 1);
-        fill(x, 2, 1, 2, 3, 1, 256, 0, 1, 1, 1);
+        Given.row(x, 2, 1, 1, 2, 3, 1, 256, 0, 1, 1, 1);
         check.due(3, "people, likes 256", x.people(2, 0, 3), 1);
-        fill(x, 2, 1, 2, 3, 1, 0, -1);
+        Given.row(x, 2, 1, 1, 2, 3, 1, 0, -1);
         check.due(3, "people, knows -1", x.people(2, 0, 3), 1);
-        fill(x, 2, 1, 2, 3, -1, 0, 0);
+        Given.row(x, 2, 1, 1, 2, 3, -1, 0, 0);
         check.due(3, "people, hand -1", x.people(2, 0, 3), 1);
         check.due(3, "count(0)", x.count(0), 7);
-        fill(x, 2, 0, 1, 2, 1, 2, 3);
+        Given.row(x, 2, 1, 0, 1, 2, 1, 2, 3);
         check.due(3, "people till they are full", x.people(2, 0, 2), 1);
         check.due(3, "people, full", x.people(2, 0, 2), 0);
         check.due(3, "count(3)", x.count(3), 0);

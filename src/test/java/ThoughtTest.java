@@ -19,16 +19,8 @@ public final class ThoughtTest {
         check.end();
     }
 
-    private static CardUnsigned office(int people) {
-        CardUnsigned x = new CardUnsigned();
-        for (int i = 0; i < people; i++) {
-            x.person(i % 4);
-        }
-        return x;
-    }
-
     private static void could() {
-        CardUnsigned x = office(4);
+        CardUnsigned x = Given.office(4);
         x.card(50, 0);
         x.card(150, 401);
         check.due(9, "could(0)", x.could(0), 14);
@@ -52,7 +44,7 @@ public final class ThoughtTest {
     }
 
     private static void likely() {
-        CardUnsigned x = office(4);
+        CardUnsigned x = Given.office(4);
         x.card(0, 30);
         check.due(11, "above", x.likely(1, 0), 1);
         check.due(11, "below", x.likely(1, 1), 7);
@@ -65,19 +57,19 @@ public final class ThoughtTest {
         check.due(11, "ct 4", x.likely(4, 0), NONE);
         check.due(11, "ct 10", x.likely(10, 0), NONE);
         check.due(11, "ct -1", x.likely(-1, 0), NONE);
-        LawTest.tell(x, "0");
+        Given.law(x, "0");
         check.due(11, "for nobody, above", x.likely(1, 0), 0);
         check.due(11, "for nobody, below", x.likely(1, 1), 1);
     }
 
     private static void likeliest() {
-        CardUnsigned x = office(4);
+        CardUnsigned x = Given.office(4);
         x.card(0, 30);
         check.due(12, "likeliest", x.likeliest(0, 0), 2);
         check.due(12, "sure", x.likeliest(0, 1), -2);
         x.mend(0, 7, -1);
         check.due(12, "of like ones the least", x.likeliest(0, 0), 1);
-        LawTest.tell(x, "h=0&s");
+        Given.law(x, "h=0&s");
         check.due(12, "for nobody", x.likeliest(0, 0), -2);
         check.due(12, "for nobody, sure", x.likeliest(0, 1), -2);
         x.mend(0, 7, 2);
@@ -88,7 +80,7 @@ public final class ThoughtTest {
     }
 
     private static void sets() {
-        CardUnsigned x = office(4);
+        CardUnsigned x = Given.office(4);
         check.due(13, "of none", x.allByOne(0), 15);
         check.due(13, "of one that is not there", x.allByOne(1), -1);
         check.due(13, "below 0", x.allByOne(-1), -1);
@@ -123,12 +115,12 @@ public final class ThoughtTest {
     }
 
     private static void unlikeAtMost() {
-        CardUnsigned x = office(8);
+        CardUnsigned x = Given.office(8);
         for (int i = 0; i < 6; i++) {
             x.card(700, 0);
         }
         check.due(15, "7 * 6 * 5 * 4 * 3 * 2", x.unlike(63), 5040);
-        CardUnsigned y = office(5);
+        CardUnsigned y = Given.office(5);
         for (int i = 0; i < 6; i++) {
             y.card(400, 0);
         }
@@ -137,7 +129,7 @@ public final class ThoughtTest {
     }
 
     private static void evenings() {
-        CardUnsigned x = office(8);
+        CardUnsigned x = Given.office(8);
         for (int i = 0; i < 7; i++) {
             x.mend(i, 4, 1 << i + 1);
         }
@@ -157,7 +149,7 @@ public final class ThoughtTest {
         check.due(17, "one 8", x.hears(3, 8), -1);
         check.due(17, "one -1", x.hears(3, -1), -1);
         check.due(17, "secret 8", x.hears(8, 0), -1);
-        CardUnsigned y = office(2);
+        CardUnsigned y = Given.office(2);
         y.mend(0, 4, 255);
         y.mend(0, 5, 1);
         check.due(16, "only people are told", y.evenings(0, 1), 3);
@@ -165,7 +157,7 @@ public final class ThoughtTest {
     }
 
     private static void ask() {
-        CardUnsigned x = office(5);
+        CardUnsigned x = Given.office(5);
         x.card(0, 0);
         check.due(18, "nobody knows: by hand", x.ask(0, 0), 8);
         check.due(18, "nobody knows: by hand, sum", x.ask(0, 1), 36);
@@ -179,7 +171,7 @@ public final class ThoughtTest {
         x.mend(2, 2, 0);
         x.mend(3, 2, 0);
         x.mend(4, 2, 0);
-        LawTest.tell(x, "1");
+        Given.law(x, "1");
         check.due(18, "of like ones the least", x.ask(0, 0), 0);
         x.mend(3, 4, 1);
         x.mend(4, 4, 1);
@@ -187,13 +179,13 @@ public final class ThoughtTest {
         check.due(18, "the last question, sum", x.ask(0, 1), 2);
         check.due(18, "what 2", x.ask(0, 2), -1);
         check.due(18, "card 1", x.ask(1, 0), -1);
-        LawTest.tell(x, "0");
+        Given.law(x, "0");
         check.due(18, "for nobody", x.ask(0, 0), 0);
         check.due(18, "for nobody, sum", x.ask(0, 1), 0);
     }
 
     private static void thank() {
-        CardUnsigned x = office(4);
+        CardUnsigned x = Given.office(4);
         x.card(0, 30);
         check.due(19, "5 by 7", x.worth(2), 4285);
         check.due(19, "1 by 7", x.worth(1), -7142);
@@ -213,13 +205,13 @@ public final class ThoughtTest {
         check.due(19, "ct 10", x.worth(10), CardUnsigned.VOID);
         check.due(19, "ct -1", x.worth(-1), CardUnsigned.VOID);
         check.due(20, "card 1", x.thank(1), -1);
-        LawTest.tell(x, "0");
+        Given.law(x, "0");
         check.due(19, "for nobody", x.worth(1), 0);
         check.due(20, "for nobody", x.thank(0), -2);
     }
 
     private static void next() {
-        CardUnsigned x = office(4);
+        CardUnsigned x = Given.office(4);
         x.card(50, 1);
         check.due(21, "nobody knows any", x.next(0, 0), -2);
         check.due(21, "nobody knows any, how many", x.next(0, 1), -2);
@@ -238,7 +230,7 @@ public final class ThoughtTest {
     }
 
     private static void write() {
-        CardUnsigned x = office(3);
+        CardUnsigned x = Given.office(3);
         x.mend(1, 5, 128);
         x.mend(1, 1, 40);
         x.mend(2, 5, 128);
@@ -270,16 +262,16 @@ public final class ThoughtTest {
     }
 
     private static void writeByLaw() {
-        CardUnsigned x = office(3);
+        CardUnsigned x = Given.office(3);
         x.card(0, 0);
         x.card(0, 0);
-        LawTest.tell(x, "c=2?h;99");
+        Given.law(x, "c=2?h;99");
         check.due(22, "its number is how many there are", x.write(10, 50, 0), 20);
         check.due(23, "below", x.written(10, 50, 1), 1);
         check.due(22, "0 is least likely", x.write(10, 50, 1), 30);
         check.due(23, "0, above", x.written(10, 50, 10), 0);
         check.due(23, "0, below", x.written(10, 50, 11), 1);
-        LawTest.tell(x, "m*s");
+        Given.law(x, "m*s");
         check.due(22, "for nobody", x.write(10, 50, 0), -2);
         check.due(22, "for nobody", x.write(10, 50, 1), -2);
         check.due(23, "for nobody, above", x.written(10, 50, 0), 0);
@@ -290,11 +282,11 @@ public final class ThoughtTest {
     }
 
     private static void writeWhenFull() {
-        CardUnsigned x = office(3);
+        CardUnsigned x = Given.office(3);
         for (int i = 0; i < 6; i++) {
             x.card(i, 101);
         }
-        LawTest.tell(x, "c=6?h+1;0");
+        Given.law(x, "c=6?h+1;0");
         check.due(22, "the seventh in thought", x.write(10, 50, 0), 20);
         check.due(23, "the seventh in thought, above", x.written(10, 50, 0), 3);
         check.due(23, "the seventh in thought, below", x.written(10, 50, 1), 4);
