@@ -172,6 +172,7 @@ public final class DeedsTest {
         check.due(36, "none", x.undo(), -5);
         for (int left = 39; left >= 0; left--) {
             check.due(37, "redo", x.redo(), left);
+            check.due(37, "gain", x.of(0, 11), 45 - left == 10 ? 99 : 45 - left);
         }
         check.due(37, "as it was", x.of(0, 11), 45);
     }

@@ -12,6 +12,7 @@ public final class ThoughtTest {
         evenings();
         ask();
         thank();
+        thankForAThousandth();
         next();
         write();
         writeByLaw();
@@ -208,6 +209,22 @@ public final class ThoughtTest {
         Given.law(x, "0");
         check.due(19, "for nobody", x.worth(1), 0);
         check.due(20, "for nobody", x.thank(0), -2);
+    }
+
+    /** 5 times 99 less 494 is 1, and that by 593 is a thousandth as cut. */
+    private static void thankForAThousandth() {
+        CardUnsigned x = Given.office(8);
+        x.card(0, 0);
+        x.mend(5, 3, 1);
+        x.mend(6, 3, 1);
+        x.mend(7, 3, 9);
+        x.mend(0, 11, 5);
+        x.mend(0, 12, 1);
+        Given.law(x, "s=9?99;s=1?81;83");
+        check.due(19, "a thousandth", x.worth(7), 1);
+        check.due(20, "a thousandth is above 0", x.thank(0), 7);
+        x.mend(0, 11, 4);
+        check.due(20, "nobody's is above 0", x.thank(0), -2);
     }
 
     private static void next() {
