@@ -46,7 +46,7 @@ public final class CardUnsigned {
 
     public int people(int shelf, int i, int n) {
         Shelf from = shelfAt(shelf);
-        if (from == null || i < 0 || n < 1 || n > Office.MOST_PEOPLE) {
+        if (from == null || n < 1 || n > Office.MOST_PEOPLE) {
             return BAD;
         }
         if (from.holds == Shelf.NOTHING) {
@@ -1274,10 +1274,11 @@ public final class CardUnsigned {
             this.thought = thought;
         }
 
+        /** Any place may be asked for: where the row has none, below 0 too, it ends at once. */
         int peopleCome(Shelf from, int i, int n) {
             int came = 0;
             int place = i;
-            while (came < n && place <= from.size - 3 && comesFrom(from, place)) {
+            while (came < n && place >= 0 && place <= from.size - 3 && comesFrom(from, place)) {
                 came++;
                 place += 3;
             }

@@ -367,10 +367,11 @@ public final class ModelTest {
         }
 
         int people(int shelf, int i, int n) {
-            if (shelf < 0 || shelf > 5 || i < 0 || n < 1 || n > 8) return -1;
+            if (shelf < 0 || shelf > 5 || n < 1 || n > 8) return -1;
             if (shelves[shelf] == null) return 0;
             if (!(shelves[shelf] instanceof short[])) return -12;
             short[] row = (short[]) shelves[shelf];
+            if (i < 0) return 0;
             int came = 0;
             for (long at = i; at + 2 < row.length && came < n && people.size() < 8; at += 3) {
                 int h = row[(int) at], l = row[(int) at + 1], k = row[(int) at + 2];
