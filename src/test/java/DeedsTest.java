@@ -1,183 +1,468 @@
 /** Promises 30 to 37: in deed. */
 public final class DeedsTest {
-    private static final Check check = new Check();
+    private static final Sentences doc = new Sentences();
 
     public static void main(String[] args) {
         pass();
+        passRefused();
         send();
+        sendByEach();
+        sendRefused();
+        sendFull();
         thanked();
+        thankedState();
+        thankedOnceEach();
+        thankedRefused();
+        led();
         image();
-        undoRedo();
+        back();
+        backOfCardsThatCame();
+        backOfNone();
+        undo();
+        redo();
+        redoBehindAnother();
+        theSameNumberIsNone();
+        allNumbersOfMend();
         fortyAreKept();
-        otherCallsAreNoChanges();
-        check.end();
+        deedsAreNone();
+        doc.end(30, 37);
     }
 
-    private static void led(int promise, CardUnsigned x, int... due) {
+    /** What LED tells: sent, thanked, right, wrong, now. */
+    private static void led(CardUnsigned x, int... due) {
         for (int what = 0; what < 5; what++) {
-            check.due(promise, "led(" + what + ")", x.led(what), due[what]);
+            doc.due(x, "led(" + what + ")", due[what]);
         }
     }
 
     private static void pass() {
-        CardUnsigned x = Given.office(0);
-        check.due(30, "pass(0)", x.pass(0), -1);
-        check.due(30, "pass(-1)", x.pass(-1), -1);
-        check.due(30, "pass(100)", x.pass(100), -1);
-        check.due(30, "pass(MAX)", x.pass(Integer.MAX_VALUE), -1);
-        check.due(30, "pass(1)", x.pass(1), 1);
-        check.due(30, "pass(99)", x.pass(99), -5);
-        check.due(30, "led(4)", x.led(4), 1);
-        check.due(30, "pass(98)", x.pass(98), 99);
-        check.due(30, "pass(1)", x.pass(1), -5);
-        check.due(30, "pass(100)", x.pass(100), -1);
+        doc.sentence(0, "it is NOW minute 0; minutes pass (99 at most)");
+        CardUnsigned x = new CardUnsigned();
+        doc.due(x, "led(4)", 0);
+        for (int now = 1; now <= 99; now++) {
+            doc.due(x, "pass(1)", now);
+        }
+        doc.due(x, "led(4)", 99);
+        doc.due(new CardUnsigned(), "pass(99)", 99);
+    }
+
+    private static void passRefused() {
+        doc.sentence(30, "n (1 .. 99) minutes pass: NOW. BAD; STATE: it would be more than 99.");
+        CardUnsigned x = new CardUnsigned();
+        for (int now = 0; now <= 99; now += 33) {
+            for (String n : new String[] {"0", "100", "-1", "MIN", "MAX"}) {
+                doc.refused(x, "pass(" + n + ")", -1);
+            }
+            if (now > 0) {
+                doc.refused(x, "pass(" + (100 - now) + ")", -5);
+                doc.refused(x, "pass(99)", -5);
+            }
+            if (now < 99) {
+                doc.due(x, "pass(33)", now + 33);
+            }
+        }
+        doc.refused(x, "pass(1)", -5);
+        CardUnsigned y = new CardUnsigned();
+        doc.due(y, "pass(1)", 1);
+        doc.refused(y, "pass(99)", -5);
+        doc.due(y, "pass(98)", 99);
     }
 
     private static void send() {
+        doc.sentence(31, "One SENDS a CARD (ft; what): its number.");
+        CardUnsigned x = Given.office(8);
+        x.pass(50);
+        x.mend(6, 5, 128);
+        doc.due(x, "send(67, 841)", 0);
+        int[] due = {50, 3, 7, 1};
+        for (int what = 6; what <= 9; what++) {
+            doc.due(x, "of(0, " + what + ")", due[what - 6]);
+        }
+        doc.due(x, "of(0, 13)", 7);
+        doc.due(x, "of(0, 14)", 6);
+        doc.due(x, "of(0, 15)", -2);
+        doc.due(x, "send(1, 0)", 1);
+        doc.due(x, "of(1, 14)", 0);
+        doc.due(x, "of(1, 8)", -1);
+        doc.due(x, "count(1)", 2);
+        led(x, 2, 0, 0, 0, 50);
+    }
+
+    private static void sendByEach() {
+        doc.sentence(0, "one SENDS a CARD to another one (AT is NOW): it is there then");
+        for (int ft = 0; ft <= 100; ft++) {
+            CardUnsigned x = Given.office(8);
+            boolean two = ft % 10 < 8 && ft < 80 && ft / 10 != ft % 10;
+            doc.due(x, "send(" + ft + ", 0)", two ? 0 : -1);
+            doc.due(x, "of(0, 14)", two ? ft / 10 : Sentences.VOID);
+            doc.due(x, "of(0, 13)", two ? ft % 10 : Sentences.VOID);
+            doc.due(x, "count(1)", two ? 1 : 0);
+        }
+    }
+
+    private static void sendRefused() {
+        doc.sentence(31, "BAD (also: it does not KNOW the SECRET, a STAMP where it is not in the office NOW); FULL.");
         CardUnsigned x = Given.office(3);
         x.pass(50);
         x.mend(1, 5, 4);
         x.mend(1, 0, 51);
-        check.due(31, "to itself", x.send(11, 0), -1);
-        check.due(31, "ft 30", x.send(30, 0), -1);
-        check.due(31, "ft 3", x.send(3, 0), -1);
-        check.due(31, "ft -1", x.send(-1, 0), -1);
-        check.due(31, "what 2", x.send(10, 2), -1);
-        check.due(31, "what 50", x.send(10, 50), -1);
-        check.due(31, "what 900", x.send(10, 900), -1);
-        check.due(31, "what -1", x.send(10, -1), -1);
-        check.due(31, "does not know", x.send(10, 200), -1);
-        check.due(31, "not in the office", x.send(10, 301), -1);
-        led(31, x, 0, 0, 0, 0, 50);
-        check.due(31, "knows", x.send(10, 340), 0);
-        check.due(31, "at", x.of(0, 6), 50);
-        check.due(31, "shown", x.of(0, 7), 3);
-        check.due(31, "secret", x.of(0, 8), 2);
-        check.due(31, "stamp", x.of(0, 9), 0);
-        check.due(31, "to", x.of(0, 13), 0);
-        check.due(31, "sender", x.of(0, 14), 1);
+        for (String ft : new String[] {"-1", "0", "11", "22", "3", "13", "30", "100", "MIN", "MAX"}) {
+            doc.refused(x, "send(" + ft + ", 0)", -1);
+        }
+        for (String what : new String[] {"-1", "2", "50", "900", "MIN", "MAX"}) {
+            doc.refused(x, "send(10, " + what + ")", -1);
+        }
+        for (int secret = 0; secret < 8; secret++) {
+            doc.refused(x, "send(20, " + 100 * (secret + 1) + ")", -1);
+            if (secret != 2) {
+                doc.refused(x, "send(10, " + 100 * (secret + 1) + ")", -1);
+            }
+        }
+        doc.refused(x, "send(10, 1)", -1);
+        doc.refused(x, "send(10, 301)", -1);
+        doc.due(x, "send(10, 300)", 0);
         x.mend(1, 0, 50);
-        check.due(31, "just in the office", x.send(10, 301), 1);
-        x.card(0, 0);
-        x.card(0, 0);
-        x.card(0, 0);
-        check.due(31, "the sixth", x.send(2, 0), 5);
-        check.due(31, "the seventh", x.send(2, 0), -3);
-        check.due(31, "the seventh, not as said", x.send(2, 2), -1);
-        led(33, x, 3, 0, 0, 0, 50);
-        check.due(33, "led(-1)", x.led(-1), -1);
-        check.due(33, "led(5)", x.led(5), -1);
+        doc.due(x, "send(10, 301)", 1);
+        x.mend(1, 1, 49);
+        doc.refused(x, "send(10, 1)", -1);
+        x.mend(1, 1, 50);
+        doc.due(x, "send(10, 1)", 2);
+        doc.refused(new CardUnsigned(), "send(10, 0)", -1);
+        doc.refused(Given.office(1), "send(1, 0)", -1);
+    }
+
+    private static void sendFull() {
+        doc.sentence(31, "FULL.");
+        CardUnsigned x = Given.office(2);
+        for (int i = 0; i < 5; i++) {
+            x.card(0, 0);
+        }
+        doc.due(x, "send(10, 0)", 5);
+        doc.refused(x, "send(10, 0)", -3);
+        doc.refused(x, "send(10, 1)", -3);
+        doc.refused(x, "send(10, 100)", -1);
+        doc.refused(x, "send(11, 0)", -1);
+        led(x, 1, 0, 0, 0, 0);
     }
 
     private static void thanked() {
+        doc.sentence(32, "One is THANKED: 1 right, 0 wrong.");
+        CardUnsigned x = Given.office(3);
+        x.send(10, 0);
+        x.send(20, 0);
+        x.send(21, 0);
+        doc.due(x, "thanked(1)", 1);
+        doc.due(x, "thanked(11)", 0);
+        doc.due(x, "thanked(21)", 0);
+        for (int card = 0; card < 3; card++) {
+            doc.due(x, "of(" + card + ", 15)", 1);
+        }
+        led(x, 3, 3, 1, 2, 0);
+        for (int one = 0; one < 8; one++) {
+            CardUnsigned y = Given.office(8);
+            for (int card = 0; card < 6; card++) {
+                y.send(70, 0);
+                doc.due(y, "thanked(" + (10 * card + one) + ")", one == 7 ? 1 : 0);
+                doc.due(y, "of(" + card + ", 15)", one);
+            }
+            led(y, 6, 6, one == 7 ? 6 : 0, one == 7 ? 0 : 6, 0);
+        }
+    }
+
+    private static void thankedState() {
+        doc.sentence(32, "STATE: it was not sent in deed, or somebody is.");
+        CardUnsigned x = Given.office(3);
+        x.card(0, 0);
+        x.send(10, 0);
+        for (int one = 0; one < 3; one++) {
+            doc.refused(x, "thanked(" + one + ")", -5);
+        }
+        doc.due(x, "thanked(10)", 0);
+        for (int one = 0; one < 3; one++) {
+            doc.refused(x, "thanked(" + (10 + one) + ")", -5);
+        }
+        x.send(10, 0);
+        doc.due(x, "thanked(21)", 1);
+        doc.refused(x, "thanked(21)", -5);
+    }
+
+    private static void thankedOnceEach() {
+        doc.sentence(0, "one is THANKED for a CARD that was sent so (once each): right or wrong");
+        CardUnsigned x = Given.office(3);
+        x.send(10, 0);
+        x.send(10, 0);
+        doc.due(x, "thanked(1)", 1);
+        doc.due(x, "thanked(1)", -5);
+        doc.due(x, "thanked(2)", -5);
+        doc.due(x, "thanked(12)", 0);
+        doc.due(x, "thanked(11)", -5);
+        led(x, 2, 2, 1, 1, 0);
+    }
+
+    private static void thankedRefused() {
+        doc.sentence(32, "BAD;");
         CardUnsigned x = Given.office(3);
         x.send(10, 0);
         x.card(0, 0);
-        x.send(20, 0);
-        check.due(32, "ct -1", x.thanked(-1), -1);
-        check.due(32, "no such one", x.thanked(3), -1);
-        check.due(32, "no such card", x.thanked(30), -1);
-        check.due(32, "not sent in deed", x.thanked(11), -5);
-        check.due(32, "right", x.thanked(1), 1);
-        check.due(32, "once more", x.thanked(1), -5);
-        check.due(32, "wrong", x.thanked(21), 0);
-        check.due(32, "once more", x.thanked(22), -5);
-        led(33, x, 2, 2, 1, 1, 0);
-        check.due(32, "who", x.of(2, 15), 1);
-        check.due(32, "who", x.of(1, 15), -2);
+        for (String ct : new String[] {"-1", "3", "9", "13", "20", "21", "60", "MIN", "MAX"}) {
+            doc.refused(x, "thanked(" + ct + ")", -1);
+        }
+        doc.refused(new CardUnsigned(), "thanked(0)", -1);
+        doc.due(x, "thanked(2)", 0);
+    }
+
+    private static void led() {
+        doc.sentence(33, "LED: sent (what 0), thanked (1), right (2), wrong (3), NOW (4). BAD.");
+        CardUnsigned x = Given.office(8);
+        for (int i = 0; i < 6; i++) {
+            x.send(10, 0);
+        }
+        for (int card = 0; card < 5; card++) {
+            x.thanked(10 * card + card);
+        }
+        x.pass(7);
+        led(x, 6, 5, 1, 4, 7);
+        for (String what : new String[] {"-1", "5", "MIN", "MAX"}) {
+            doc.refused(x, "led(" + what + ")", -1);
+        }
     }
 
     private static void image() {
+        doc.sentence(34, "AN IMAGE is kept: NOW.");
+        CardUnsigned x = new CardUnsigned();
+        doc.due(x, "image()", 0);
+        x.pass(99);
+        doc.due(x, "back()", 0);
+        x.pass(60);
+        doc.due(x, "image()", 60);
+        doc.due(x, "image()", 60);
+        x.pass(39);
+        doc.due(x, "back()", 60);
+        doc.due(x, "led(4)", 60);
+        x.pass(1);
+        doc.due(x, "image()", 61);
+        x.pass(1);
+        doc.due(x, "back()", 61);
+    }
+
+    private static void back() {
+        doc.sentence(0, "AN IMAGE keeps NOW, who is thanked for what, what LED tells.");
         CardUnsigned x = Given.office(3);
-        check.due(35, "no image", x.back(), -5);
         x.pass(10);
         x.send(10, 0);
         x.send(10, 0);
+        x.send(10, 0);
+        x.send(10, 0);
         x.thanked(1);
-        check.due(34, "image", x.image(), 10);
-        x.pass(5);
-        x.send(20, 0);
-        x.thanked(12);
         x.thanked(22);
+        x.thanked(30);
+        x.image();
+        x.pass(5);
+        x.thanked(12);
         x.mend(0, 3, 5);
         x.feed(49);
-        led(34, x, 3, 3, 2, 1, 15);
-        check.due(35, "back", x.back(), 10);
-        led(35, x, 2, 1, 1, 0, 10);
-        check.due(35, "cards stay", x.count(1), 3);
-        check.due(35, "sender stays", x.of(2, 14), 2);
-        check.due(35, "at stays", x.of(2, 6), 15);
-        check.due(35, "thanked ahead of it", x.of(0, 15), 1);
-        check.due(35, "thanked since", x.of(1, 15), -2);
-        check.due(35, "thanked since, a new card", x.of(2, 15), -2);
-        check.due(35, "changes stay", x.of(0, 3), 5);
-        check.due(35, "the tape stays", x.count(2), 1);
-        check.due(35, "thanked again", x.thanked(21), 0);
-        check.due(35, "back again", x.back(), 10);
-        led(35, x, 2, 1, 1, 0, 10);
-        x.pass(1);
-        check.due(34, "a later image", x.image(), 11);
-        x.pass(1);
-        check.due(35, "back to the later", x.back(), 11);
+        x.body(3);
+        x.row(0, 0, 3);
+        x.person(2);
+        led(x, 4, 4, 1, 3, 15);
+        doc.due(x, "back()", 10);
+        led(x, 4, 3, 1, 2, 10);
+        int[] thanked = {1, -2, 2, 0};
+        for (int card = 0; card < 4; card++) {
+            doc.due(x, "of(" + card + ", 15)", thanked[card]);
+        }
+        doc.due(x, "of(0, 3)", 5);
+        int[] counts = {4, 4, 1, 1, 1};
+        for (int what = 0; what < 5; what++) {
+            doc.due(x, "count(" + what + ")", counts[what]);
+        }
+        doc.due(x, "put(0, 0, 1)", 1);
+        doc.due(x, "thanked(11)", 1);
+        led(x, 4, 4, 2, 2, 10);
+        doc.due(x, "back()", 10);
+        led(x, 4, 3, 1, 2, 10);
+        doc.due(x, "thanked(1)", -5);
     }
 
-    private static void undoRedo() {
+    private static void backOfCardsThatCame() {
+        doc.sentence(35, "It is laid back (nobody is THANKED for CARDS that came since): NOW.");
+        CardUnsigned x = Given.office(3);
+        doc.due(x, "image()", 0);
+        for (int card = 0; card < 6; card++) {
+            x.send(10, 0);
+            x.thanked(10 * card + 1);
+        }
+        x.pass(1);
+        led(x, 6, 6, 6, 0, 1);
+        doc.due(x, "back()", 0);
+        led(x, 0, 0, 0, 0, 0);
+        for (int card = 0; card < 6; card++) {
+            doc.due(x, "of(" + card + ", 15)", -2);
+            doc.due(x, "of(" + card + ", 14)", 1);
+            doc.due(x, "of(" + card + ", 13)", 0);
+        }
+        doc.due(x, "count(1)", 6);
+        doc.due(x, "thanked(52)", 0);
+        led(x, 0, 1, 0, 1, 0);
+    }
+
+    private static void backOfNone() {
+        doc.sentence(35, "STATE: there is none.");
+        CardUnsigned x = Given.office(2);
+        doc.refused(x, "back()", -5);
+        x.pass(3);
+        x.send(10, 0);
+        doc.refused(x, "back()", -5);
+        doc.due(x, "image()", 3);
+        doc.due(x, "back()", 3);
+        doc.due(x, "back()", 3);
+    }
+
+    private static void undo() {
+        doc.sentence(36, "UNDONE: how many may still be. STATE: none.");
         CardUnsigned x = Given.office(2);
         x.card(0, 0);
-        check.due(36, "none", x.undo(), -5);
-        check.due(37, "none", x.redo(), -5);
+        doc.refused(x, "undo()", -5);
         x.mend(1, 3, 4);
         x.mend(0, 6, 77);
-        x.mend(0, 10, 9);
-        x.mend(0, 10, 9);
-        x.mend(0, 10, 13);
-        check.due(36, "may be undone", x.count(3), 3);
-        check.due(36, "undo", x.undo(), 2);
-        check.due(36, "feigns", x.of(0, 10), 2);
-        check.due(36, "undo", x.undo(), 1);
-        check.due(36, "at", x.of(0, 6), 0);
-        check.due(37, "redo", x.redo(), 1);
-        check.due(37, "at", x.of(0, 6), 77);
-        check.due(37, "the same number is none", x.mend(1, 3, 4), 4);
-        check.due(37, "a refused one is none", x.mend(1, 3, 10), CardUnsigned.VOID);
-        check.due(37, "redo", x.redo(), 0);
-        check.due(37, "feigns", x.of(0, 10), 9);
-        check.due(37, "none", x.redo(), -5);
-        check.due(36, "undo", x.undo(), 2);
-        x.mend(0, 12, 50);
-        check.due(37, "another one came behind", x.redo(), -5);
-        check.due(36, "undo", x.undo(), 2);
-        check.due(36, "loss", x.of(0, 12), 10);
-        check.due(36, "undo", x.undo(), 1);
-        check.due(36, "undo", x.undo(), 0);
-        check.due(36, "shy", x.of(1, 3), 0);
-        check.due(36, "none", x.undo(), -5);
-        check.due(37, "redo", x.redo(), 2);
-        check.due(37, "redo", x.redo(), 1);
-        check.due(37, "redo", x.redo(), 0);
-        check.due(37, "loss", x.of(0, 12), 50);
-        check.due(36, "may be undone", x.count(3), 3);
+        x.mend(0, 6, 78);
+        doc.due(x, "count(3)", 3);
+        doc.due(x, "undo()", 2);
+        doc.due(x, "of(0, 6)", 77);
+        doc.due(x, "undo()", 1);
+        doc.due(x, "of(0, 6)", 0);
+        doc.due(x, "of(1, 3)", 4);
+        doc.due(x, "undo()", 0);
+        doc.due(x, "of(1, 3)", 0);
+        doc.due(x, "count(3)", 0);
+        doc.refused(x, "undo()", -5);
+    }
+
+    private static void redo() {
+        doc.sentence(37, "DONE AGAIN: how many may still be. STATE: none.");
+        CardUnsigned x = Given.office(2);
+        doc.refused(x, "redo()", -5);
+        x.mend(1, 3, 4);
+        doc.refused(x, "redo()", -5);
+        x.mend(1, 3, 5);
+        x.mend(0, 0, 6);
+        x.undo();
+        x.undo();
+        x.undo();
+        doc.due(x, "redo()", 2);
+        doc.due(x, "of(1, 3)", 4);
+        doc.due(x, "count(3)", 1);
+        doc.due(x, "redo()", 1);
+        doc.due(x, "of(1, 3)", 5);
+        doc.due(x, "of(0, 0)", 0);
+        doc.due(x, "redo()", 0);
+        doc.due(x, "of(0, 0)", 6);
+        doc.due(x, "count(3)", 3);
+        doc.refused(x, "redo()", -5);
+        doc.due(x, "undo()", 2);
+        doc.due(x, "redo()", 0);
+    }
+
+    private static void redoBehindAnother() {
+        doc.sentence(0, "and DONE AGAIN (as long as no other came behind)");
+        CardUnsigned x = Given.office(2);
+        x.mend(1, 3, 4);
+        x.mend(1, 3, 5);
+        x.undo();
+        x.undo();
+        doc.due(x, "mend(0, 12, 50)", 10);
+        doc.refused(x, "redo()", -5);
+        doc.due(x, "undo()", 0);
+        doc.due(x, "of(0, 12)", 10);
+        doc.due(x, "redo()", 0);
+        doc.due(x, "of(0, 12)", 50);
+        doc.due(x, "of(1, 3)", 0);
+        doc.refused(x, "redo()", -5);
+    }
+
+    private static void theSameNumberIsNone() {
+        doc.sentence(0, "telling the same number is none");
+        CardUnsigned x = Given.office(2);
+        doc.refused(x, "mend(1, 1, 99)", 99);
+        doc.refused(x, "undo()", -5);
+        x.mend(1, 3, 4);
+        doc.refused(x, "mend(1, 3, 4)", 4);
+        doc.due(x, "count(3)", 1);
+        x.undo();
+        doc.refused(x, "mend(1, 3, 0)", 0);
+        doc.refused(x, "mend(1, 3, 10)", Sentences.VOID);
+        doc.due(x, "redo()", 0);
+        doc.due(x, "of(1, 3)", 4);
+    }
+
+    private static void allNumbersOfMend() {
+        doc.sentence(0, "CHANGES (all numbers of mend();");
+        CardUnsigned x = Given.fullOffice();
+        int[] first = new int[13];
+        for (int what = 0; what <= 12; what++) {
+            first[what] = x.of(0, what);
+            x.mend(0, what, first[what] == 1 ? 0 : 1);
+            doc.due(x, "count(3)", what + 1);
+        }
+        for (int what = 12; what >= 0; what--) {
+            doc.due(x, "of(0, " + what + ")", first[what] == 1 ? 0 : 1);
+            doc.due(x, "undo()", what);
+            doc.due(x, "of(0, " + what + ")", first[what]);
+        }
+        for (int what = 0; what <= 12; what++) {
+            doc.due(x, "redo()", 12 - what);
+            doc.due(x, "of(0, " + what + ")", first[what] == 1 ? 0 : 1);
+        }
     }
 
     private static void fortyAreKept() {
-        CardUnsigned x = Given.office(1);
+        doc.sentence(0, "40 at most are kept; deeds are none.");
+        CardUnsigned x = Given.office(8);
         for (int v = 1; v <= 45; v++) {
-            x.mend(0, 11, v == 10 ? 99 : v);
-            check.due(36, "count(3)", x.count(3), Math.min(v, 40));
+            x.mend(v % 8, 0, v);
+            doc.due(x, "count(3)", Math.min(v, 40));
         }
         for (int left = 39; left >= 0; left--) {
-            check.due(36, "undo", x.undo(), left);
+            doc.due(x, "undo()", left);
         }
-        check.due(36, "what it was 40 ago", x.of(0, 11), 5);
-        check.due(36, "none", x.undo(), -5);
+        doc.refused(x, "undo()", -5);
+        for (int one = 0; one < 8; one++) {
+            doc.due(x, "of(" + one + ", 0)", one >= 1 && one <= 5 ? one : 0);
+        }
         for (int left = 39; left >= 0; left--) {
-            check.due(37, "redo", x.redo(), left);
-            check.due(37, "gain", x.of(0, 11), 45 - left == 10 ? 99 : 45 - left);
+            doc.due(x, "redo()", left);
+            doc.due(x, "of(" + (45 - left) % 8 + ", 0)", 45 - left);
         }
-        check.due(37, "as it was", x.of(0, 11), 45);
+        doc.refused(x, "redo()", -5);
+        doc.due(x, "undo()", 39);
+        doc.due(x, "mend(0, 0, 99)", 40);
+        doc.due(x, "count(3)", 40);
+        doc.due(x, "undo()", 39);
+        fortyOfUnlikeNumbers();
     }
 
-    private static void otherCallsAreNoChanges() {
+    /** Three times 13 numbers and four more: the first three are not kept. */
+    private static void fortyOfUnlikeNumbers() {
+        CardUnsigned x = Given.fullOffice();
+        int[][] was = new int[43][];
+        for (int i = 0; i < 43; i++) {
+            int what = i % 13;
+            int number = what <= 9 ? i / 13 : 0;
+            was[i] = new int[] {number, what, x.of(number, what)};
+            x.mend(number, what, was[i][2] == 1 ? 0 : 1);
+        }
+        for (int i = 42; i >= 3; i--) {
+            doc.due(x, "undo()", i - 3);
+            doc.due(x, "of(" + was[i][0] + ", " + was[i][1] + ")", was[i][2]);
+        }
+        doc.refused(x, "undo()", -5);
+        for (int i = 0; i < 3; i++) {
+            doc.due(x, "of(" + was[i][0] + ", " + was[i][1] + ")", was[i][2] == 1 ? 0 : 1);
+        }
+    }
+
+    private static void deedsAreNone() {
+        doc.sentence(0, "deeds are none.");
         CardUnsigned x = Given.office(2);
         x.mend(0, 3, 5);
         x.undo();
@@ -189,9 +474,15 @@ public final class DeedsTest {
         x.image();
         x.back();
         x.body(0);
+        x.row(0, 0, 1);
+        x.put(0, 0, 1);
         Given.law(x, "1");
-        check.due(36, "deeds are none", x.undo(), -5);
-        check.due(37, "redo behind deeds", x.redo(), 0);
-        check.due(37, "shy", x.of(0, 3), 5);
+        doc.due(x, "count(3)", 0);
+        doc.refused(x, "undo()", -5);
+        doc.due(x, "redo()", 0);
+        doc.due(x, "of(0, 3)", 5);
+        doc.due(x, "undo()", 0);
+        doc.due(x, "count(1)", 2);
+        doc.due(x, "led(4)", 3);
     }
 }

@@ -4,7 +4,7 @@ import java.util.Arrays;
 import java.util.Comparator;
 import java.util.Random;
 
-/** All promises: no call throws for any arguments in any state, and what is refused changes nothing. */
+/** All promises: no call throws for any arguments in any state, and what is refused changes nothing, now or later. */
 public final class EdgesTest {
     private static final Check check = new Check();
     private static final int[] ODD = {0, 1, 2, 3, 5, 7, 8, 9, 10, 11, 40, 59, 60, 61, 63, 64, 98, 99, 100, 119, 120, 255, 256,
@@ -22,26 +22,32 @@ public final class EdgesTest {
         check.end();
     }
 
+    /** The twin gets the same calls but those that were refused, and answers alike. */
     private static void run(Random random, Method[] face, int seed) {
         CardUnsigned x = new CardUnsigned();
-        begin(x, random);
-        for (int i = 0; i < 300; i++) {
+        CardUnsigned twin = new CardUnsigned();
+        begin(x, new Random(seed));
+        begin(twin, new Random(seed));
+        for (int i = 0; i < 300 && check.wrong() == 0; i++) {
             Method method = face[random.nextInt(face.length)];
             Object[] arguments = arguments(method, random);
             String called = "seed " + seed + ": " + method.getName() + Arrays.toString(arguments);
-            long before = state(x);
-            try {
-                long answer = ((Number) method.invoke(x, arguments)).longValue();
-                if (refused(method, answer)) {
-                    check.due(0, "the state behind " + called, state(x), before);
-                }
-            } catch (InvocationTargetException e) {
-                check.due(0, called + " threw " + e.getCause(), 1, 0);
-                return;
-            } catch (IllegalAccessException e) {
-                check.due(0, called + " " + e, 1, 0);
-                return;
+            long before = Given.state(x);
+            long answer = made(x, method, arguments, called);
+            if (refused(method, answer)) {
+                check.due(0, "the state behind " + called, Given.state(x), before);
+            } else {
+                check.due(0, called + " of the twin", made(twin, method, arguments, called), answer);
             }
+        }
+    }
+
+    private static long made(CardUnsigned x, Method method, Object[] arguments, String called) {
+        try {
+            return ((Number) method.invoke(x, arguments)).longValue();
+        } catch (InvocationTargetException | IllegalAccessException e) {
+            check.holds(0, called + " does not throw: " + e.getCause(), false);
+            return 0;
         }
     }
 
@@ -81,32 +87,5 @@ public final class EdgesTest {
         }
         boolean element = method.getName().equals("element");
         return !element && answer >= -14 && answer < 0 || answer == CardUnsigned.VOID || answer == Long.MIN_VALUE;
-    }
-
-    private static long state(CardUnsigned x) {
-        long state = 17;
-        for (int what = 0; what <= 5; what++) {
-            state = state * 31 + x.count(what) * 7 + x.led(what);
-        }
-        for (int number = 0; number < 8; number++) {
-            for (int what = 0; what <= 15; what++) {
-                state = state * 31 + x.of(number, what);
-            }
-        }
-        for (int shelf = 0; shelf < 6; shelf++) {
-            state = state * 31 + x.taken(shelf, 0);
-            for (int i = 0; i < 60; i++) {
-                state = state * 31 + x.element(shelf, i);
-            }
-        }
-        for (int card = 0; card < x.count(1); card++) {
-            for (int one = 0; one < x.count(0); one++) {
-                state = state * 31 + x.counts(10 * card + one);
-            }
-        }
-        for (int i = 0; i < 24; i++) {
-            state = state * 31 + x.trace(i);
-        }
-        return state;
     }
 }

@@ -1,199 +1,385 @@
 /** Promises 1 to 7: a new object, people, cards, what they are mended to, the tape. */
 public final class PeopleCardsTest {
-    private static final Check check = new Check();
-    private static final int VOID = CardUnsigned.VOID;
+    private static final Sentences doc = new Sentences();
+    private static final int VOID = Sentences.VOID;
 
     public static void main(String[] args) {
         newObject();
-        persons();
-        peopleFromRows();
-        cards();
-        mends();
-        reads();
-        feeds();
-        check.end();
+        person();
+        personFull();
+        numbersOfPeople();
+        numbersOfCards();
+        numbersOfAll();
+        people();
+        peopleRefused();
+        peopleMissing();
+        peopleAtTheEnd();
+        peopleNotSo();
+        peopleFull();
+        card();
+        cardFull();
+        cardAsNumbers();
+        mend();
+        mendRefused();
+        of();
+        ofAsOfMend();
+        ofRefused();
+        feed();
+        doc.end(1, 7);
     }
 
     private static void newObject() {
+        doc.sentence(1, "An office, nobody in it.");
         CardUnsigned x = new CardUnsigned();
         for (int what = 0; what <= 5; what++) {
-            check.due(1, "count(" + what + ")", x.count(what), 0);
+            doc.due(x, "count(" + what + ")", 0);
         }
         for (int what = 0; what <= 4; what++) {
-            check.due(1, "led(" + what + ")", x.led(what), 0);
+            doc.due(x, "led(" + what + ")", 0);
         }
-        check.due(1, "of(0, 10)", x.of(0, 10), 2);
-        check.due(1, "of(0, 11)", x.of(0, 11), 10);
-        check.due(1, "of(0, 12)", x.of(0, 12), 10);
-        check.due(1, "back()", x.back(), -5);
-        check.due(1, "undo()", x.undo(), -5);
-        check.due(1, "redo()", x.redo(), -5);
-        check.due(1, "trace(0)", x.trace(0), -1);
+        for (int what = 0; what <= 9; what++) {
+            doc.due(x, "of(0, " + what + ")", VOID);
+        }
         for (int shelf = 0; shelf <= 5; shelf++) {
-            check.due(1, "put on a new shelf", x.put(shelf, 0, 1), -11);
+            doc.due(x, "put(" + shelf + ", 0, 1)", -11);
         }
-        check.due(1, "allByOne(0)", x.allByOne(0), 0);
+        doc.due(x, "could(0)", -1);
+        doc.due(x, "allByOne(0)", 0);
+        doc.due(x, "evenings(0, 9)", 0);
+        doc.due(x, "trace(0)", -1);
+        doc.due(x, "back()", -5);
+        doc.due(x, "undo()", -5);
+        doc.due(x, "redo()", -5);
     }
 
-    private static void persons() {
+    private static void person() {
+        doc.sentence(2, "One of PEOPLE: its number.");
         CardUnsigned x = new CardUnsigned();
-        check.due(2, "person(-1)", x.person(-1), -1);
-        check.due(2, "person(4)", x.person(4), -1);
-        check.due(2, "person(MIN)", x.person(Integer.MIN_VALUE), -1);
         for (int i = 0; i < 8; i++) {
-            check.due(2, "person", x.person(i % 4), i);
+            doc.due(x, "person(" + i % 4 + ")", i);
+            doc.due(x, "count(0)", i + 1);
             int[] first = {0, 99, i % 4, 0, 0, 0};
             for (int what = 0; what < 6; what++) {
-                check.due(2, "of a new one " + what, x.of(i, what), first[what]);
+                doc.due(x, "of(" + i + ", " + what + ")", first[what]);
             }
         }
-        check.due(2, "person(0), the ninth", x.person(0), -3);
-        check.due(2, "person(4), the ninth", x.person(4), -1);
-        check.due(2, "count(0)", x.count(0), 8);
     }
 
-    private static void peopleFromRows() {
+    private static void personFull() {
+        doc.sentence(2, "BAD, FULL: 8.");
         CardUnsigned x = new CardUnsigned();
-        check.due(3, "people, nothing there", x.people(0, 0, 1), 0);
-        check.due(3, "people, no such shelf", x.people(6, 0, 1), -1);
-        check.due(3, "people, no such shelf", x.people(-1, 0, 1), -1);
-        check.due(3, "people, n 0", x.people(0, 0, 0), -1);
-        check.due(3, "people, n 9", x.people(0, 0, 9), -1);
-        check.due(3, "people, nothing there, any place", x.people(0, -1, 1), 0);
-        check.due(3, "people, nothing there, any place", x.people(5, Integer.MIN_VALUE, 8), 0);
-        check.due(3, "people, nothing there, any place", x.people(5, Integer.MAX_VALUE, 8), 0);
-        check.due(3, "people, nothing there, n 9", x.people(0, -1, 9), -1);
-        check.due(3, "people, no such shelf, any place", x.people(6, -1, 1), -1);
-        x.row(0, 0, 9);
-        check.due(3, "people, bytes", x.people(0, 0, 1), -12);
-        check.due(3, "people, bytes, any place", x.people(0, -1, 1), -12);
-        x.keep(0, -1);
-        check.due(3, "people, nothing there any more", x.people(0, -1, 1), 0);
+        refusedHands(x);
+        for (int i = 0; i < 8; i++) {
+            doc.due(x, "person(3)", i);
+        }
+        doc.refused(x, "person(0)", -3);
+        doc.refused(x, "person(3)", -3);
+        refusedHands(x);
+    }
+
+    private static void refusedHands(CardUnsigned x) {
+        for (String hand : new String[] {"-1", "4", "256", "MIN", "MAX"}) {
+            doc.refused(x, "person(" + hand + ")", -1);
+        }
+    }
+
+    private static void numbersOfPeople() {
+        range("FROM, TILL (0 .. 99 minutes; 0, 99 at first: in the office, both, too)", 0, 0, 0, 99);
+        range("FROM, TILL (0 .. 99 minutes; 0, 99 at first: in the office, both, too)", 1, 99, 0, 99);
+        range("HAND (0 .. 3)", 2, 1, 0, 3);
+        range("SHY (0 .. 9; 0 at first)", 3, 0, 0, 9);
+        range("LIKES (bits 0 .. 255 of PEOPLE; none at first)", 4, 0, 0, 255);
+        range("KNOWS (bits 0 .. 255: SECRETS 0 .. 7; none at first)", 5, 0, 0, 255);
+    }
+
+    private static void numbersOfCards() {
+        range("AT (0 .. 99)", 6, 50, 0, 99);
+        range("SHOWN (-1 .. 3: a HAND; -1: none)", 7, -1, -1, 3);
+        range("SECRET (-1 .. 7; -1: none)", 8, -1, -1, 7);
+        range("STAMP (0, 1)", 9, 0, 0, 1);
+    }
+
+    private static void numbersOfAll() {
+        range("FEIGNS (0 .. 12 of twelve; 2 at first)", 10, 2, 0, 12);
+        range("GAIN, LOSS (0 .. 99; 10, 10 at first)", 11, 10, 0, 99);
+        range("GAIN, LOSS (0 .. 99; 10, 10 at first)", 12, 10, 0, 99);
+    }
+
+    /** A number of the first and of the last that has one: what it is at first, its least, its most, and beyond. */
+    private static void range(String words, int what, int first, int least, int most) {
+        doc.sentence(0, words);
+        CardUnsigned x = Given.fullOffice();
+        int last = what <= 5 ? 7 : what <= 9 ? 5 : 0;
+        for (int number = 0; number <= last; number += Math.max(1, last)) {
+            String mend = "mend(" + number + ", " + what + ", ";
+            doc.due(x, "of(" + number + ", " + what + ")", first);
+            doc.refused(x, mend + (least - 1) + ")", VOID);
+            doc.refused(x, mend + (most + 1) + ")", VOID);
+            doc.refused(x, mend + "MIN)", VOID);
+            doc.refused(x, mend + "MAX)", VOID);
+            doc.due(x, mend + most + ")", first);
+            doc.due(x, mend + least + ")", most);
+            doc.due(x, "of(" + number + ", " + what + ")", least);
+        }
+    }
+
+    private static void people() {
+        doc.sentence(3, "PEOPLE FROM A ROW on a SHELF, from place i on, n (1 .. 8) of them: how many came.");
+        CardUnsigned x = Given.office(1);
+        Given.row(x, 5, 1, 9, 3, 255, 128, 0, 0, 0, 1, 2, 3);
+        doc.due(x, "people(5, 1, 2)", 2);
+        int[][] due = {{0, 99, 3, 0, 255, 128}, {0, 99, 0, 0, 0, 0}};
+        for (int one = 1; one <= 2; one++) {
+            for (int what = 0; what < 6; what++) {
+                doc.due(x, "of(" + one + ", " + what + ")", due[one - 1][what]);
+            }
+        }
+        doc.due(x, "people(5, 7, 1)", 1);
+        doc.due(x, "of(3, 5)", 3);
+        doc.due(x, "count(0)", 4);
+        doc.due(x, "count(3)", 0);
+    }
+
+    private static void peopleRefused() {
+        doc.sentence(3, "BAD, -12 (no ROW of shorts; a SHELF that holds nothing is missing).");
+        CardUnsigned x = new CardUnsigned();
         x.body(0);
-        x.keep(0, 0);
-        check.due(3, "people, a look", x.people(0, 0, 1), -12);
-        check.due(3, "people, a look, any place", x.people(0, -1, 1), -12);
-        check.due(3, "people, a look, n 0", x.people(0, 0, 0), -1);
-        Given.row(x, 1, 1, 3, 255, 255, 0, 0, 0, 1, 2);
-        check.due(3, "people, ends within a three", x.people(1, 0, 8), 2);
-        check.due(3, "hand", x.of(0, 2), 3);
-        check.due(3, "likes", x.of(0, 4), 255);
-        check.due(3, "knows", x.of(0, 5), 255);
-        check.due(3, "till", x.of(1, 1), 99);
-        check.due(3, "people, from 3 on", x.people(1, 3, 8), 1);
-        check.due(3, "people, from 1 on: 255 is no hand", x.people(1, 1, 8), 0);
-        check.due(3, "people, from 6 on", x.people(1, 6, 8), 0);
-        check.due(3, "people, from 8 on", x.people(1, 8, 8), 0);
-        check.due(3, "people, far behind the end", x.people(1, Integer.MAX_VALUE, 8), 0);
-        check.due(3, "people, ahead of the row", x.people(1, -1, 8), 0);
-        check.due(3, "people, a three ahead of the row", x.people(1, -3, 8), 0);
-        check.due(3, "people, far ahead of the row", x.people(1, Integer.MIN_VALUE, 8), 0);
-        check.due(3, "people, ahead of the row, n 0", x.people(1, -1, 0), -1);
-        check.due(3, "count(0)", x.count(0), 3);
-        check.due(3, "people, one of two", x.people(1, 0, 1), 1);
-        Given.row(x, 2, 1, 1, 2, 3, 1, 256, 0, 1, 1, 1);
-        check.due(3, "people, likes 256", x.people(2, 0, 3), 1);
-        Given.row(x, 2, 1, 1, 2, 3, 1, 0, -1);
-        check.due(3, "people, knows -1", x.people(2, 0, 3), 1);
-        Given.row(x, 2, 1, 1, 2, 3, -1, 0, 0);
-        check.due(3, "people, hand -1", x.people(2, 0, 3), 1);
-        check.due(3, "count(0)", x.count(0), 7);
-        Given.row(x, 2, 1, 0, 1, 2, 1, 2, 3);
-        check.due(3, "people till they are full", x.people(2, 0, 2), 1);
-        check.due(3, "people, full", x.people(2, 0, 2), 0);
-        check.due(3, "count(3)", x.count(3), 0);
+        x.keep(1, 0);
+        for (int sort = 0; sort < 5; sort++) {
+            x.row(0, sort, 9);
+            if (sort != 1) {
+                doc.refused(x, "people(0, 0, 1)", -12);
+                doc.refused(x, "people(0, -1, 8)", -12);
+                doc.refused(x, "people(0, 9, 1)", -12);
+            }
+        }
+        doc.refused(x, "people(1, 0, 1)", -12);
+        doc.refused(x, "people(1, -1, 1)", -12);
+        x.row(0, 1, 9);
+        for (int shelf = 0; shelf <= 2; shelf++) {
+            for (String n : new String[] {"0", "9", "-1", "MIN", "MAX"}) {
+                doc.refused(x, "people(" + shelf + ", 0, " + n + ")", -1);
+                doc.refused(x, "people(" + shelf + ", -1, " + n + ")", -1);
+            }
+        }
+        for (String shelf : new String[] {"-1", "6", "MIN", "MAX"}) {
+            doc.refused(x, "people(" + shelf + ", 0, 1)", -1);
+        }
+        doc.due(x, "people(0, 0, 8)", 3);
     }
 
-    private static void cards() {
+    private static void peopleMissing() {
+        doc.sentence(0, "it ends where the row is missing");
         CardUnsigned x = new CardUnsigned();
-        check.due(4, "card to nobody", x.card(0, 0), -1);
-        x.person(0);
-        x.person(1);
-        check.due(4, "card(-1, 0)", x.card(-1, 0), -1);
-        check.due(4, "card(200, 0)", x.card(200, 0), -1);
-        check.due(4, "card(MAX, 0)", x.card(Integer.MAX_VALUE, 0), -1);
-        check.due(4, "card(0, -1)", x.card(0, -1), -1);
-        check.due(4, "card(0, 2)", x.card(0, 2), -1);
-        check.due(4, "card(0, 50)", x.card(0, 50), -1);
-        check.due(4, "card(0, 900)", x.card(0, 900), -1);
-        check.due(4, "card(0, MAX)", x.card(0, Integer.MAX_VALUE), -1);
-        check.due(4, "card(199, 841)", x.card(199, 841), 0);
-        int[] numbers = {99, 3, 7, 1};
+        for (int shelf = 0; shelf <= 5; shelf++) {
+            for (String i : new String[] {"0", "-1", "60", "MIN", "MAX"}) {
+                doc.refused(x, "people(" + shelf + ", " + i + ", 1)", 0);
+                doc.refused(x, "people(" + shelf + ", " + i + ", 8)", 0);
+            }
+        }
+        x.row(0, 1, 9);
+        x.keep(0, -1);
+        doc.refused(x, "people(0, 0, 3)", 0);
+    }
+
+    private static void peopleAtTheEnd() {
+        doc.sentence(0, "ends (within a three, too)");
+        CardUnsigned x = new CardUnsigned();
+        for (int n = 0; n <= 9; n++) {
+            x.row(0, 1, n);
+            doc.due(x, "people(0, " + n + ", 1)", 0);
+            doc.due(x, "people(0, 0, 1)", n < 3 ? 0 : 1);
+            x = new CardUnsigned();
+            x.row(0, 1, n);
+            doc.due(x, "people(0, 0, 8)", n / 3);
+            x = new CardUnsigned();
+        }
+        x.row(0, 1, 60);
+        doc.due(x, "people(0, 57, 8)", 1);
+        for (String i : new String[] {"58", "59", "60", "61", "MAX", "-1", "-3", "MIN"}) {
+            doc.refused(x, "people(0, " + i + ", 8)", 0);
+        }
+    }
+
+    private static void peopleNotSo() {
+        doc.sentence(0, "one is not so");
+        int[][] threes = {{-1, 0, 0}, {4, 0, 0}, {0, -1, 0}, {0, 256, 0}, {0, 0, -1}, {0, 0, 256}};
+        for (int[] three : threes) {
+            CardUnsigned x = new CardUnsigned();
+            Given.row(x, 0, 1, 3, 255, 255, three[0], three[1], three[2], 1, 1, 1);
+            doc.due(x, "people(0, 0, 3)", 1);
+            doc.refused(x, "people(0, 3, 3)", 0);
+            doc.due(x, "people(0, 6, 3)", 1);
+            doc.due(x, "count(0)", 2);
+        }
+    }
+
+    private static void peopleFull() {
+        doc.sentence(0, "or PEOPLE are FULL: those ahead came");
+        CardUnsigned x = Given.office(6);
+        Given.row(x, 0, 1, 1, 0, 0, 2, 0, 0, 3, 0, 0);
+        doc.due(x, "people(0, 0, 3)", 2);
+        doc.due(x, "of(7, 2)", 2);
+        doc.refused(x, "people(0, 6, 1)", 0);
+        doc.refused(x, "people(0, 0, 8)", 0);
+        doc.due(x, "count(0)", 8);
+        CardUnsigned y = new CardUnsigned();
+        y.row(0, 1, 27);
+        doc.due(y, "people(0, 0, 8)", 8);
+        doc.due(y, "people(0, 24, 1)", 0);
+    }
+
+    private static void card() {
+        doc.sentence(4, "A CARD: its number.");
+        CardUnsigned x = Given.office(2);
+        doc.due(x, "card(199, 841)", 0);
+        int[] due = {99, 3, 7, 1};
         for (int what = 6; what <= 9; what++) {
-            check.due(4, "of(0, " + what + ")", x.of(0, what), numbers[what - 6]);
+            doc.due(x, "of(0, " + what + ")", due[what - 6]);
         }
-        check.due(4, "of(0, 13)", x.of(0, 13), 1);
-        check.due(4, "card(7, 0)", x.card(7, 0), 1);
-        check.due(4, "of(1, 7)", x.of(1, 7), -1);
-        check.due(4, "of(1, 8)", x.of(1, 8), -1);
-        check.due(4, "of(1, 14)", x.of(1, 14), -2);
-        check.due(4, "of(1, 15)", x.of(1, 15), -2);
-        for (int i = 2; i < 6; i++) {
-            check.due(4, "card(0, 0)", x.card(0, 0), i);
+        doc.due(x, "of(0, 13)", 1);
+        doc.due(x, "card(7, 0)", 1);
+        int[] dueToo = {7, -1, -1, 0};
+        for (int what = 6; what <= 9; what++) {
+            doc.due(x, "of(1, " + what + ")", dueToo[what - 6]);
         }
-        check.due(4, "card(0, 0), the seventh", x.card(0, 0), -3);
-        check.due(4, "card(0, 2), the seventh", x.card(0, 2), -1);
-        check.due(4, "count(1)", x.count(1), 6);
+        doc.due(x, "of(1, 13)", 0);
+        doc.due(x, "of(1, 14)", -2);
+        doc.due(x, "of(1, 15)", -2);
+        doc.due(x, "count(1)", 2);
+        doc.due(x, "led(0)", 0);
     }
 
-    private static void mends() {
-        int[] least = {0, 0, 0, 0, 0, 0, 0, -1, -1, 0, 0, 0, 0};
-        int[] most = {99, 99, 3, 9, 255, 255, 99, 3, 7, 1, 12, 99, 99};
-        int[] first = {0, 99, 1, 0, 0, 0, 50, 2, 4, 1, 2, 10, 10};
+    private static void cardFull() {
+        doc.sentence(4, "BAD, FULL: 6.");
         CardUnsigned x = new CardUnsigned();
-        x.person(1);
-        x.card(50, 531);
-        for (int what = 0; what <= 12; what++) {
-            check.due(5, "below, " + what, x.mend(0, what, least[what] - 1), VOID);
-            check.due(5, "above, " + what, x.mend(0, what, most[what] + 1), VOID);
-            check.due(5, "number 1, " + what, x.mend(1, what, least[what]), VOID);
-            check.due(5, "number -1, " + what, x.mend(-1, what, least[what]), VOID);
-            check.due(5, "nothing came of it, " + what, x.of(0, what), first[what]);
-            check.due(5, "to most, " + what, x.mend(0, what, most[what]), first[what]);
-            check.due(5, "to least, " + what, x.mend(0, what, least[what]), most[what]);
-            check.due(5, "as it is, " + what, x.mend(0, what, least[what]), least[what]);
-            check.due(5, "of, " + what, x.of(0, what), least[what]);
-        }
-        check.due(5, "what -1", x.mend(0, -1, 0), VOID);
-        for (int what = 13; what <= 16; what++) {
-            check.due(5, "what " + what, x.mend(0, what, 0), VOID);
-        }
-        check.due(5, "what MAX", x.mend(0, Integer.MAX_VALUE, 0), VOID);
-    }
-
-    private static void reads() {
-        CardUnsigned x = new CardUnsigned();
-        for (int what = 0; what <= 15; what++) {
-            boolean general = what >= 10 && what <= 12;
-            check.holds(6, "of(0, " + what + ") of nobody", (x.of(0, what) == VOID) != general);
-            check.due(6, "of(1, " + what + ")", x.of(1, what), VOID);
-        }
-        check.due(6, "of(0, -1)", x.of(0, -1), VOID);
-        check.due(6, "of(0, 16)", x.of(0, 16), VOID);
-        check.due(6, "of(MIN, 0)", x.of(Integer.MIN_VALUE, 0), VOID);
+        doc.refused(x, "card(0, 0)", -1);
         x.person(0);
-        x.person(1);
+        for (int i = 0; i < 6; i++) {
+            doc.due(x, "card(0, 0)", i);
+        }
+        doc.refused(x, "card(0, 0)", -3);
+        doc.refused(x, "card(99, 841)", -3);
+        doc.refused(x, "card(0, 2)", -1);
+        doc.refused(x, "card(100, 0)", -1);
+        doc.due(x, "count(1)", 6);
+    }
+
+    private static void cardAsNumbers() {
+        doc.sentence(0, "ta: 100 times whom it is TO, and AT; what: 100 times SECRET and 1, 10 times SHOWN and 1, and STAMP");
+        CardUnsigned x = Given.office(8);
+        for (String ta : new String[] {"-1", "-100", "800", "900", "MIN", "MAX"}) {
+            doc.refused(x, "card(" + ta + ", 0)", -1);
+        }
+        for (String what : new String[] {"-1", "2", "9", "50", "51", "90", "842", "850", "900", "901", "MIN", "MAX"}) {
+            doc.refused(x, "card(0, " + what + ")", -1);
+        }
+        doc.due(x, "card(799, 100)", 0);
+        doc.due(x, "of(0, 13)", 7);
+        doc.due(x, "of(0, 6)", 99);
+        doc.due(x, "of(0, 8)", 0);
+        doc.due(x, "card(700, 40)", 1);
+        doc.due(x, "of(1, 6)", 0);
+        doc.due(x, "of(1, 7)", 3);
+        doc.due(x, "card(0, 10)", 2);
+        doc.due(x, "of(2, 7)", 0);
+        doc.due(x, "card(0, 1)", 3);
+        doc.due(x, "of(3, 9)", 1);
+    }
+
+    private static void mend() {
+        doc.sentence(5, "of one, AT (6), SHOWN (7), SECRET (8), STAMP (9) of a CARD");
+        CardUnsigned x = Given.fullOffice();
+        int[] v = {5, 6, 2, 7, 8, 9, 10, 1, 3, 1, 11, 12, 13};
+        int[] first = {0, 99, 1, 0, 0, 0, 50, -1, -1, 0, 2, 10, 10};
+        for (int what = 0; what <= 12; what++) {
+            int number = what <= 9 ? 3 : 0;
+            doc.due(x, "mend(" + number + ", " + what + ", " + v[what] + ")", first[what]);
+            doc.due(x, "mend(" + number + ", " + what + ", " + v[what] + ")", v[what]);
+        }
+        for (int what = 0; what <= 12; what++) {
+            doc.due(x, "of(" + (what <= 9 ? 3 : 0) + ", " + what + ")", v[what]);
+            doc.due(x, "of(" + (what <= 9 ? 2 : 0) + ", " + what + ")", what <= 9 ? first[what] : v[what]);
+        }
+    }
+
+    private static void mendRefused() {
+        doc.sentence(5, "(12; number 0 for these) becomes v: what it was. VOID: BAD.");
+        CardUnsigned x = Given.office(3);
+        x.card(0, 0);
+        for (int what = 0; what <= 12; what++) {
+            int many = what <= 5 ? 3 : 1;
+            for (String number : new String[] {"-1", String.valueOf(many), "8", "MIN", "MAX"}) {
+                doc.refused(x, "mend(" + number + ", " + what + ", 1)", VOID);
+            }
+            doc.due(x, "mend(" + (many - 1) + ", " + what + ", 1)", x.of(many - 1, what));
+        }
+        for (String what : new String[] {"-1", "13", "14", "15", "16", "MIN", "MAX"}) {
+            doc.refused(x, "mend(0, " + what + ", 0)", VOID);
+        }
+    }
+
+    private static void of() {
+        doc.sentence(6, "of a CARD 13 whom it is TO, 14 who sent it in deed, 15 who is THANKED for it (NOT: nobody).");
+        CardUnsigned x = Given.office(2);
         x.send(10, 0);
         x.card(100, 0);
-        check.due(6, "of(0, 13)", x.of(0, 13), 0);
-        check.due(6, "of(0, 14)", x.of(0, 14), 1);
-        check.due(6, "of(0, 15)", x.of(0, 15), -2);
+        doc.due(x, "of(0, 13)", 0);
+        doc.due(x, "of(0, 14)", 1);
+        doc.due(x, "of(0, 15)", -2);
         x.thanked(0);
-        check.due(6, "of(0, 15)", x.of(0, 15), 0);
-        check.due(6, "of(1, 13)", x.of(1, 13), 1);
-        check.due(6, "of(1, 14)", x.of(1, 14), -2);
-        check.due(6, "of(2, 13)", x.of(2, 13), VOID);
+        doc.due(x, "of(0, 15)", 0);
+        doc.due(x, "of(1, 13)", 1);
+        doc.due(x, "of(1, 14)", -2);
+        doc.due(x, "of(1, 15)", -2);
     }
 
-    private static void feeds() {
-        CardUnsigned x = new CardUnsigned();
-        check.due(7, "feed(-1)", x.feed(-1), -1);
-        check.due(7, "feed(256)", x.feed(256), -1);
-        for (int i = 1; i <= 120; i++) {
-            check.due(7, "feed", x.feed(i % 2 == 0 ? 255 : 0), i);
+    private static void ofAsOfMend() {
+        doc.sentence(6, "As of mend() (0 to 12)");
+        CardUnsigned x = Given.fullOffice();
+        int[] due = {0, 99, 1, 0, 0, 0, 50, -1, -1, 0, 2, 10, 10};
+        for (int what = 0; what <= 12; what++) {
+            doc.due(x, "of(0, " + what + ")", due[what]);
+            doc.due(x, "of(7, " + what + ")", what <= 5 ? due[what] : VOID);
+            doc.due(x, "of(5, " + what + ")", what <= 9 ? due[what] : VOID);
         }
-        check.due(7, "feed(49), the 121st", x.feed(49), -3);
-        check.due(7, "feed(256), the 121st", x.feed(256), -1);
-        check.due(7, "count(2)", x.count(2), 120);
+    }
+
+    private static void ofRefused() {
+        doc.sentence(6, "VOID: BAD.");
+        CardUnsigned x = Given.office(2);
+        x.card(0, 0);
+        for (int what = 0; what <= 15; what++) {
+            int many = what <= 5 ? 2 : 1;
+            for (String number : new String[] {"-1", String.valueOf(many), "8", "MIN", "MAX"}) {
+                doc.refused(x, "of(" + number + ", " + what + ")", VOID);
+            }
+        }
+        for (String what : new String[] {"-1", "16", "MIN", "MAX"}) {
+            doc.refused(x, "of(0, " + what + ")", VOID);
+        }
+    }
+
+    private static void feed() {
+        doc.sentence(7, "A byte (0 .. 255) comes to THE TAPE: how many it has.");
+        CardUnsigned x = new CardUnsigned();
+        doc.due(x, "feed(0)", 1);
+        doc.due(x, "feed(255)", 2);
+        doc.due(x, "count(2)", 2);
+        doc.sentence(7, "BAD, FULL (120).");
+        refusedLetters(x);
+        for (int i = 3; i <= 120; i++) {
+            doc.due(x, "feed(" + (256 - i) + ")", i);
+        }
+        doc.refused(x, "feed(49)", -3);
+        doc.refused(x, "feed(0)", -3);
+        refusedLetters(x);
+        doc.due(x, "count(2)", 120);
+    }
+
+    private static void refusedLetters(CardUnsigned x) {
+        for (String letter : new String[] {"-1", "256", "MIN", "MAX"}) {
+            doc.refused(x, "feed(" + letter + ")", -1);
+        }
     }
 }

@@ -1,218 +1,587 @@
-/** Promises 9 and 11 to 23: cards in thought. */
+import java.math.BigInteger;
+
+/** Promises 9 to 23: cards in thought. */
 public final class ThoughtTest {
-    private static final Check check = new Check();
-    private static final long NONE = Long.MIN_VALUE;
+    private static final Sentences doc = new Sentences();
+    private static final long NONE = Sentences.NONE;
 
     public static void main(String[] args) {
         could();
+        couldByOffice();
+        couldRefused();
+        counts();
         likely();
+        likelyLowestTerms();
+        likelyOfNobody();
         likeliest();
-        sets();
+        sure();
+        allByOne();
+        hands();
+        handsNot();
+        unlike();
         unlikeAtMost();
         evenings();
+        eveningsAllAtOnce();
+        hears();
         ask();
+        askOfLikeOnes();
+        worth();
+        worthCut();
         thank();
-        thankForAThousandth();
+        thankOfLikeOnes();
         next();
-        write();
-        writeByLaw();
-        writeWhenFull();
-        check.end();
+        nextNot();
+        nextElseLikeThisOne();
+        writeAsNumbered();
+        writeWays();
+        writeShown();
+        writeStamp();
+        writeByEach();
+        writeOfLikeOnes();
+        writeForNobody();
+        writeRefused();
+        written();
+        doc.end(9, 23);
+    }
+
+    /** A call with each of these cards is refused, when there are six. */
+    private static void cardsRefused(String name, String behind, long want) {
+        CardUnsigned x = Given.fullOffice();
+        for (String card : new String[] {"-1", "6", "7", "MIN", "MAX"}) {
+            doc.refused(x, name + "(" + card + behind + ")", want);
+        }
+        doc.refused(new CardUnsigned(), name + "(0" + behind + ")", want);
+        doc.refused(Given.office(8), name + "(0" + behind + ")", want);
+    }
+
+    /** A call with each of these numbers of a card and one is refused, when there are six and eight. */
+    private static void cardsAndPeopleRefused(String name, String behind, long want) {
+        CardUnsigned x = Given.fullOffice();
+        for (String ct : new String[] {"-1", "-10", "8", "9", "58", "59", "60", "67", "MIN", "MAX"}) {
+            doc.refused(x, name + "(" + ct + behind + ")", want);
+        }
+        doc.refused(new CardUnsigned(), name + "(0" + behind + ")", want);
+        doc.refused(Given.office(1), name + "(0" + behind + ")", want);
+        CardUnsigned y = Given.office(3);
+        y.card(0, 0);
+        doc.refused(y, name + "(3" + behind + ")", want);
+        doc.refused(y, name + "(10" + behind + ")", want);
+    }
+
+    /** A set of cards that are not all there is refused. */
+    private static void setsRefused(String name, String behind) {
+        CardUnsigned x = new CardUnsigned();
+        x.person(0);
+        for (int cards = 0; cards <= 6; cards++) {
+            for (String set : new String[] {"-1", String.valueOf(1 << cards), "64", "128", "MIN", "MAX"}) {
+                doc.refused(x, name + "(" + set + behind + ")", -1);
+            }
+            x.card(0, 0);
+        }
+    }
+
+    /** Of two numbers to choose by, others are refused. */
+    private static void choicesRefused(String ahead, long want) {
+        CardUnsigned x = Given.fullOffice();
+        for (String what : new String[] {"-1", "2", "MIN", "MAX"}) {
+            doc.refused(x, ahead + what + ")", want);
+        }
     }
 
     private static void could() {
+        doc.sentence(9, "Who COULD.");
+        CardUnsigned x = Given.fullOffice();
+        doc.due(x, "could(0)", 254);
+        doc.due(x, "could(5)", 254);
+        CardUnsigned y = Given.office(1);
+        y.card(0, 0);
+        doc.due(y, "could(0)", 0);
+    }
+
+    private static void couldByOffice() {
+        doc.sentence(0, "One COULD have written a CARD, if it is not TO, KNOWS its SECRET (if there is one), and, if it has a STAMP, "
+            + "was in the office AT that minute.");
         CardUnsigned x = Given.office(4);
-        x.card(50, 0);
         x.card(150, 401);
-        check.due(9, "could(0)", x.could(0), 14);
-        check.due(9, "could(1)", x.could(1), 0);
+        doc.due(x, "could(0)", 0);
         x.mend(0, 5, 8);
-        x.mend(1, 5, 8);
-        x.mend(2, 5, 8);
+        x.mend(1, 5, 255);
+        x.mend(2, 5, 255);
         x.mend(3, 5, 247);
-        check.due(9, "could(1), who know it", x.could(1), 5);
+        doc.due(x, "could(0)", 5);
         x.mend(0, 0, 50);
         x.mend(2, 1, 50);
-        check.due(9, "could(1), in the office both", x.could(1), 5);
+        doc.due(x, "could(0)", 5);
         x.mend(0, 0, 51);
-        check.due(9, "could(1), not yet in", x.could(1), 4);
+        doc.due(x, "could(0)", 4);
         x.mend(2, 1, 49);
-        check.due(9, "could(1), no more in", x.could(1), 0);
-        x.mend(1, 9, 0);
-        check.due(9, "could(1), no stamp", x.could(1), 5);
-        check.due(9, "could(2)", x.could(2), -1);
-        check.due(9, "could(-1)", x.could(-1), -1);
+        doc.due(x, "could(0)", 0);
+        x.mend(0, 9, 0);
+        doc.due(x, "could(0)", 5);
+        x.mend(0, 8, -1);
+        doc.due(x, "could(0)", 13);
+        x.mend(0, 9, 1);
+        doc.due(x, "could(0)", 8);
+        x.mend(3, 0, 60);
+        x.mend(3, 1, 40);
+        doc.due(x, "could(0)", 0);
+        x.mend(0, 6, 99);
+        doc.due(x, "could(0)", 1);
+        x.mend(0, 6, 0);
+        doc.due(x, "could(0)", 4);
+    }
+
+    private static void couldRefused() {
+        doc.sentence(9, "BAD.");
+        cardsRefused("could", "", -1);
+    }
+
+    private static void counts() {
+        doc.sentence(10, "How much it COUNTS for one. BAD.");
+        CardUnsigned x = officeOfUnlikeOnes();
+        for (int card = 0; card < 6; card++) {
+            for (int one = 0; one < 8; one++) {
+                doc.due(x, "counts(" + (10 * card + one) + ")", one == card ? 0 : 8 * card + one + 1);
+            }
+        }
+        cardsAndPeopleRefused("counts", "", -1);
+    }
+
+    /** Eight people, six cards to the first six of them; each card counts another number for each. */
+    private static CardUnsigned officeOfUnlikeOnes() {
+        CardUnsigned x = Given.office(8);
+        for (int one = 0; one < 8; one++) {
+            x.mend(one, 3, one + 1);
+        }
+        for (int card = 0; card < 6; card++) {
+            x.card(100 * card, 0);
+        }
+        Given.law(x, "c*8+s");
+        return x;
+    }
+
+    /** What a card of that office counts for all. */
+    private static int allOfUnlikeOnes(int card) {
+        return 7 * 8 * card + 36 - (card + 1);
     }
 
     private static void likely() {
+        doc.sentence(11, "LIKELY. Long.MIN_VALUE: BAD.");
         CardUnsigned x = Given.office(4);
         x.card(0, 30);
-        check.due(11, "above", x.likely(1, 0), 1);
-        check.due(11, "below", x.likely(1, 1), 7);
-        check.due(11, "above", x.likely(2, 0), 5);
-        check.due(11, "below", x.likely(2, 1), 7);
-        check.due(11, "to that one, above", x.likely(0, 0), 0);
-        check.due(11, "to that one, below", x.likely(0, 1), 1);
-        check.due(11, "part 2", x.likely(1, 2), NONE);
-        check.due(11, "part -1", x.likely(1, -1), NONE);
-        check.due(11, "ct 4", x.likely(4, 0), NONE);
-        check.due(11, "ct 10", x.likely(10, 0), NONE);
-        check.due(11, "ct -1", x.likely(-1, 0), NONE);
+        doc.due(x, "likely(1, 0)", 1);
+        doc.due(x, "likely(1, 1)", 7);
+        doc.due(x, "likely(2, 0)", 5);
+        doc.due(x, "likely(2, 1)", 7);
+        CardUnsigned y = officeOfUnlikeOnes();
+        for (int card = 0; card < 6; card++) {
+            for (int one = 0; one < 8; one++) {
+                int here = one == card ? 0 : 8 * card + one + 1;
+                int divisor = BigInteger.valueOf(here).gcd(BigInteger.valueOf(allOfUnlikeOnes(card))).intValue();
+                doc.due(y, "likely(" + (10 * card + one) + ", 0)", here / divisor);
+                doc.due(y, "likely(" + (10 * card + one) + ", 1)", allOfUnlikeOnes(card) / divisor);
+            }
+        }
+        for (int part = 0; part <= 1; part++) {
+            cardsAndPeopleRefused("likely", ", " + part, NONE);
+        }
+        choicesRefused("likely(1, ", NONE);
+    }
+
+    private static void likelyLowestTerms() {
+        doc.sentence(0, "LIKELY: that by what it COUNTS for all, in lowest terms");
+        CardUnsigned x = Given.fullOffice();
+        Given.law(x, "99");
+        doc.due(x, "likely(57, 0)", 1);
+        doc.due(x, "likely(57, 1)", 7);
+        doc.due(x, "likely(50, 0)", 0);
+        doc.due(x, "likely(50, 1)", 1);
+        Given.law(x, "98+s");
+        x.mend(7, 3, 1);
+        doc.due(x, "likely(7, 0)", 33);
+        doc.due(x, "likely(7, 1)", 229);
+        Given.law(x, "s");
+        doc.due(x, "likely(7, 0)", 1);
+        doc.due(x, "likely(7, 1)", 1);
+        doc.due(x, "likely(6, 0)", 0);
+        doc.due(x, "likely(6, 1)", 1);
+    }
+
+    private static void likelyOfNobody() {
+        doc.sentence(0, "(all 0: 0 by 1)");
+        CardUnsigned x = Given.office(4);
+        x.card(0, 30);
         Given.law(x, "0");
-        check.due(11, "for nobody, above", x.likely(1, 0), 0);
-        check.due(11, "for nobody, below", x.likely(1, 1), 1);
+        for (int one = 0; one < 4; one++) {
+            doc.due(x, "likely(" + one + ", 0)", 0);
+            doc.due(x, "likely(" + one + ", 1)", 1);
+        }
+        CardUnsigned y = Given.office(1);
+        y.card(0, 0);
+        doc.due(y, "likely(0, 0)", 0);
+        doc.due(y, "likely(0, 1)", 1);
     }
 
     private static void likeliest() {
+        doc.sentence(12, "LIKELIEST (what 0), SURE (1). BAD; NOT.");
+        for (int what = 0; what <= 1; what++) {
+            cardsRefused("likeliest", ", " + what, -1);
+        }
+        choicesRefused("likeliest(0, ", -1);
+        doc.sentence(0, "LIKELIEST (of like ones the least; NOT: it COUNTS for nobody)");
         CardUnsigned x = Given.office(4);
         x.card(0, 30);
-        check.due(12, "likeliest", x.likeliest(0, 0), 2);
-        check.due(12, "sure", x.likeliest(0, 1), -2);
+        doc.due(x, "likeliest(0, 0)", 2);
         x.mend(0, 7, -1);
-        check.due(12, "of like ones the least", x.likeliest(0, 0), 1);
-        Given.law(x, "h=0&s");
-        check.due(12, "for nobody", x.likeliest(0, 0), -2);
-        check.due(12, "for nobody, sure", x.likeliest(0, 1), -2);
-        x.mend(0, 7, 2);
-        x.mend(3, 3, 9);
-        check.due(12, "sure", x.likeliest(0, 1), 3);
-        check.due(12, "what 2", x.likeliest(0, 2), -1);
-        check.due(12, "card 1", x.likeliest(1, 0), -1);
+        doc.due(x, "likeliest(0, 0)", 1);
+        Given.law(x, "s");
+        doc.due(x, "likeliest(0, 0)", -2);
+        x.mend(0, 3, 9);
+        doc.due(x, "likeliest(0, 0)", -2);
+        x.mend(3, 3, 1);
+        doc.due(x, "likeliest(0, 0)", 3);
+        x.mend(2, 3, 1);
+        doc.due(x, "likeliest(0, 0)", 2);
+        x.mend(3, 3, 2);
+        doc.due(x, "likeliest(0, 0)", 3);
+        x.card(100, 0);
+        doc.due(x, "likeliest(1, 0)", 0);
+        CardUnsigned y = officeOfUnlikeOnes();
+        for (int card = 0; card < 6; card++) {
+            doc.due(y, "likeliest(" + card + ", 0)", 7);
+        }
     }
 
-    private static void sets() {
+    private static void sure() {
+        doc.sentence(0, "SURE: the only one for whom it COUNTS (NOT).");
         CardUnsigned x = Given.office(4);
-        check.due(13, "of none", x.allByOne(0), 15);
-        check.due(13, "of one that is not there", x.allByOne(1), -1);
-        check.due(13, "below 0", x.allByOne(-1), -1);
+        x.card(0, 30);
+        doc.due(x, "likeliest(0, 1)", -2);
+        Given.law(x, "s");
+        doc.due(x, "likeliest(0, 1)", -2);
+        x.mend(0, 3, 9);
+        doc.due(x, "likeliest(0, 1)", -2);
+        x.mend(3, 3, 9);
+        doc.due(x, "likeliest(0, 1)", 3);
+        x.mend(1, 3, 1);
+        doc.due(x, "likeliest(0, 1)", -2);
+        x.mend(3, 3, 0);
+        doc.due(x, "likeliest(0, 1)", 1);
+        x.card(200, 0);
+        doc.due(x, "likeliest(1, 1)", -2);
+        x.mend(1, 3, 0);
+        doc.due(x, "likeliest(1, 1)", 0);
+        x.mend(0, 3, 1);
+        x.mend(1, 3, 2);
+        doc.due(x, "likeliest(1, 1)", -2);
+    }
+
+    private static void allByOne() {
+        doc.sentence(13, "ALL BY ONE (sets of CARDS that are there). BAD.");
+        setsRefused("allByOne", "");
+        doc.sentence(0, "ALL BY ONE: who (bits) COULD have written all CARDS of a set (bits; of none: all PEOPLE).");
+        CardUnsigned x = new CardUnsigned();
+        for (int people = 0; people <= 8; people++) {
+            doc.due(x, "allByOne(0)", (1 << people) - 1);
+            x.person(0);
+        }
         x.card(0, 0);
         x.card(100, 0);
         x.card(200, 0);
         x.card(300, 0);
-        check.due(13, "of two", x.allByOne(5), 10);
-        check.due(13, "of all", x.allByOne(15), 0);
-        check.due(13, "16", x.allByOne(16), -1);
-        check.due(14, "one hand", x.hands(7, 0), 1);
-        check.due(14, "one hand, who", x.hands(7, 1), 8);
-        check.due(14, "two hands", x.hands(15, 0), 2);
-        check.due(14, "two hands, the least bits", x.hands(15, 1), 3);
-        check.due(14, "none", x.hands(0, 0), 0);
-        check.due(14, "none, who", x.hands(0, 1), 0);
-        check.due(14, "16", x.hands(16, 0), -1);
-        check.due(14, "what 2", x.hands(1, 2), -1);
+        x.card(400, 800);
+        x.card(500, 0);
+        doc.due(x, "allByOne(1)", 254);
+        doc.due(x, "allByOne(5)", 250);
+        doc.due(x, "allByOne(47)", 208);
+        doc.due(x, "allByOne(63)", 0);
+        doc.due(x, "allByOne(0)", 255);
+    }
+
+    private static void hands() {
+        doc.sentence(14, "HANDS: how many (what 0), who (1). BAD; NOT.");
+        setsRefused("hands", ", 0");
+        setsRefused("hands", ", 1");
+        choicesRefused("hands(0, ", -1);
+        choicesRefused("hands(63, ", -1);
+        doc.sentence(0, "each by one of them: how many; who (bits; of like ones the least); NOT.");
+        CardUnsigned x = Given.office(4);
+        doc.due(x, "hands(0, 0)", 0);
+        doc.due(x, "hands(0, 1)", 0);
+        x.card(0, 0);
+        x.card(100, 0);
+        x.card(200, 0);
+        doc.due(x, "hands(6, 0)", 1);
+        doc.due(x, "hands(6, 1)", 1);
+        doc.due(x, "hands(7, 1)", 8);
+        x.card(300, 0);
+        doc.due(x, "hands(15, 0)", 2);
+        doc.due(x, "hands(15, 1)", 3);
         x.mend(1, 8, 5);
-        check.due(14, "nobody knows", x.hands(15, 0), -2);
-        check.due(14, "nobody knows, who", x.hands(15, 1), -2);
-        x.mend(0, 5, 32);
-        check.due(14, "two hands", x.hands(15, 1), 3);
         x.mend(3, 5, 32);
-        x.mend(0, 5, 0);
-        check.due(14, "by one of them each", x.hands(15, 1), 9);
-        check.due(15, "no cards", x.unlike(0), 1);
-        check.due(15, "two", x.unlike(2), 1);
-        check.due(15, "all", x.unlike(15), 3);
-        check.due(15, "16", x.unlike(16), -1);
-        check.due(15, "-1", x.unlike(-1), -1);
+        doc.due(x, "hands(15, 0)", 2);
+        doc.due(x, "hands(15, 1)", 9);
+        CardUnsigned y = Given.office(8);
+        for (int i = 0; i < 6; i++) {
+            y.mend(7 - i, 5, 1 << i);
+            y.card(0, 100 * (i + 1));
+        }
+        doc.due(y, "hands(63, 0)", 6);
+        doc.due(y, "hands(63, 1)", 252);
+        CardUnsigned z = Given.office(2);
+        z.card(0, 0);
+        z.card(100, 0);
+        doc.due(z, "hands(3, 0)", 2);
+        doc.due(z, "hands(3, 1)", 3);
+    }
+
+    private static void handsNot() {
+        doc.sentence(14, "BAD; NOT.");
+        CardUnsigned x = Given.office(8);
+        x.card(0, 0);
+        x.card(0, 800);
+        doc.due(x, "hands(1, 0)", 1);
+        for (int what = 0; what <= 1; what++) {
+            doc.due(x, "hands(2, " + what + ")", -2);
+            doc.due(x, "hands(3, " + what + ")", -2);
+        }
+        x.mend(0, 5, 128);
+        doc.due(x, "hands(3, 0)", -2);
+        x.mend(7, 5, 128);
+        doc.due(x, "hands(3, 0)", 1);
+        doc.due(x, "hands(3, 1)", 128);
+    }
+
+    private static void unlike() {
+        doc.sentence(15, "UNLIKE. BAD.");
+        setsRefused("unlike", "");
+        CardUnsigned x = Given.office(3);
+        doc.due(x, "unlike(0)", 1);
+        x.card(0, 0);
+        x.card(100, 0);
+        x.card(200, 0);
+        doc.due(x, "unlike(1)", 2);
+        doc.due(x, "unlike(3)", 3);
+        doc.due(x, "unlike(7)", 2);
+        x.card(0, 100);
+        doc.due(x, "unlike(8)", 0);
+        doc.due(x, "unlike(15)", 0);
+        doc.due(x, "unlike(7)", 2);
     }
 
     private static void unlikeAtMost() {
-        CardUnsigned x = Given.office(8);
-        for (int i = 0; i < 6; i++) {
-            x.card(700, 0);
-        }
-        check.due(15, "7 * 6 * 5 * 4 * 3 * 2", x.unlike(63), 5040);
+        doc.sentence(0, "UNLIKE: in how many ways all CARDS of a set could be by unlike ones.");
+        CardUnsigned x = Given.fullOffice();
+        doc.due(x, "unlike(63)", 7 * 6 * 5 * 4 * 3 * 2);
         CardUnsigned y = Given.office(5);
         for (int i = 0; i < 6; i++) {
             y.card(400, 0);
         }
-        check.due(15, "too few", y.unlike(63), 0);
-        check.due(15, "just so many", y.unlike(15), 24);
+        doc.due(y, "unlike(15)", 24);
+        doc.due(y, "unlike(60)", 24);
+        doc.due(y, "unlike(31)", 0);
+        doc.due(y, "unlike(63)", 0);
     }
 
     private static void evenings() {
+        doc.sentence(16, "EVENINGS: who KNOWS a SECRET behind n of them. BAD.");
         CardUnsigned x = Given.office(8);
         for (int i = 0; i < 7; i++) {
             x.mend(i, 4, 1 << i + 1);
         }
-        x.mend(0, 5, 8);
+        x.mend(0, 5, 128);
         for (int n = 0; n <= 9; n++) {
-            check.due(16, "a chain, n " + n, x.evenings(3, n), (1 << Math.min(n, 7) + 1) - 1);
+            doc.due(x, "evenings(7, " + n + ")", (1 << Math.min(n, 7) + 1) - 1);
+            doc.due(x, "evenings(0, " + n + ")", 0);
         }
-        for (int i = 0; i < 8; i++) {
-            check.due(17, "a chain, one " + i, x.hears(3, i), i);
-            check.due(17, "another one, " + i, x.hears(2, i), -2);
+        for (String n : new String[] {"-1", "10", "MIN", "MAX"}) {
+            doc.refused(x, "evenings(7, " + n + ")", -1);
         }
-        check.due(16, "another one", x.evenings(2, 9), 0);
-        check.due(16, "n 10", x.evenings(3, 10), -1);
-        check.due(16, "n -1", x.evenings(3, -1), -1);
-        check.due(16, "secret 8", x.evenings(8, 0), -1);
-        check.due(16, "secret -1", x.evenings(-1, 0), -1);
-        check.due(17, "one 8", x.hears(3, 8), -1);
-        check.due(17, "one -1", x.hears(3, -1), -1);
-        check.due(17, "secret 8", x.hears(8, 0), -1);
+        for (String secret : new String[] {"-1", "8", "MIN", "MAX"}) {
+            doc.refused(x, "evenings(" + secret + ", 0)", -1);
+        }
+        doc.due(new CardUnsigned(), "evenings(7, 9)", 0);
+    }
+
+    private static void eveningsAllAtOnce() {
+        doc.sentence(0, "each evening everybody tells whom it LIKES all it KNOWS (all at once)");
+        CardUnsigned x = Given.office(4);
+        x.mend(0, 4, 2);
+        x.mend(1, 4, 4);
+        x.mend(3, 4, 8);
+        x.mend(0, 5, 1);
+        doc.due(x, "evenings(0, 1)", 3);
+        doc.due(x, "evenings(0, 2)", 7);
+        doc.due(x, "evenings(0, 9)", 7);
+        doc.due(x, "of(1, 5)", 0);
         CardUnsigned y = Given.office(2);
         y.mend(0, 4, 255);
         y.mend(0, 5, 1);
-        check.due(16, "only people are told", y.evenings(0, 1), 3);
-        check.due(16, "what they know is as it was", y.of(1, 5), 0);
+        doc.due(y, "evenings(0, 1)", 3);
+        doc.due(y, "evenings(0, 9)", 3);
+    }
+
+    private static void hears() {
+        doc.sentence(17, "Behind how many one KNOWS it. BAD; NOT.");
+        CardUnsigned x = Given.office(8);
+        for (int i = 0; i < 7; i++) {
+            x.mend(i, 4, 1 << i + 1);
+        }
+        x.mend(0, 5, 129);
+        for (int one = 0; one < 8; one++) {
+            doc.due(x, "hears(7, " + one + ")", one);
+            doc.due(x, "hears(0, " + one + ")", one);
+            doc.due(x, "hears(6, " + one + ")", -2);
+        }
+        x.mend(6, 4, 0);
+        doc.due(x, "hears(7, 7)", -2);
+        for (String one : new String[] {"-1", "8", "MIN", "MAX"}) {
+            doc.refused(x, "hears(7, " + one + ")", -1);
+        }
+        for (String secret : new String[] {"-1", "8", "MIN", "MAX"}) {
+            doc.refused(x, "hears(" + secret + ", 0)", -1);
+        }
+        doc.refused(new CardUnsigned(), "hears(0, 0)", -1);
+        doc.refused(Given.office(7), "hears(0, 7)", -1);
     }
 
     private static void ask() {
+        doc.sentence(18, "ASK: which (what 0), that sum (1). BAD.");
+        for (int what = 0; what <= 1; what++) {
+            cardsRefused("ask", ", " + what, -1);
+        }
+        choicesRefused("ask(0, ", -1);
+        doc.sentence(0, "ASK: QUESTIONS 0 .. 7: do you KNOW that SECRET; 8 .. 11: is it your HAND (0 .. 3); 12: do you LIKE whom it is TO");
+        for (int question = 0; question <= 12; question++) {
+            CardUnsigned x = question >= 8 && question < 12 ? officeOfHands(question - 8) : officeOfOneHand();
+            x.card(0, 0);
+            Given.law(x, "1");
+            for (int one = 1; one <= 2 && question < 8; one++) {
+                x.mend(one, 5, 1 << question);
+            }
+            for (int one = 1; one <= 2 && question == 12; one++) {
+                x.mend(one, 4, 1);
+            }
+            doc.due(x, "ask(0, 0)", question);
+            doc.due(x, "ask(0, 1)", 2);
+        }
+    }
+
+    /** Two are of a hand, two of unlike other ones; the first, whom cards are to, is of yet another one. */
+    private static CardUnsigned officeOfHands(int hand) {
+        CardUnsigned x = new CardUnsigned();
+        int[] hands = {hand + 3, hand, hand, hand + 1, hand + 2};
+        for (int h : hands) {
+            x.person(h % 4);
+        }
+        return x;
+    }
+
+    private static CardUnsigned officeOfOneHand() {
+        CardUnsigned x = new CardUnsigned();
+        for (int i = 0; i < 5; i++) {
+            x.person(0);
+        }
+        return x;
+    }
+
+    private static void askOfLikeOnes() {
+        doc.sentence(0, "is least (of like ones the least QUESTION): it; that sum.");
         CardUnsigned x = Given.office(5);
         x.card(0, 0);
-        check.due(18, "nobody knows: by hand", x.ask(0, 0), 8);
-        check.due(18, "nobody knows: by hand, sum", x.ask(0, 1), 36);
+        doc.due(x, "ask(0, 0)", 8);
+        doc.due(x, "ask(0, 1)", 36);
         x.mend(1, 5, 128);
         x.mend(2, 5, 192);
-        check.due(18, "a secret that two know", x.ask(0, 0), 7);
-        check.due(18, "a secret that two know, sum", x.ask(0, 1), 24);
-        x.mend(1, 5, 0);
-        x.mend(2, 5, 0);
-        x.mend(1, 2, 0);
-        x.mend(2, 2, 0);
-        x.mend(3, 2, 0);
-        x.mend(4, 2, 0);
-        Given.law(x, "1");
-        check.due(18, "of like ones the least", x.ask(0, 0), 0);
-        x.mend(3, 4, 1);
-        x.mend(4, 4, 1);
-        check.due(18, "the last question", x.ask(0, 0), 12);
-        check.due(18, "the last question, sum", x.ask(0, 1), 2);
-        check.due(18, "what 2", x.ask(0, 2), -1);
-        check.due(18, "card 1", x.ask(1, 0), -1);
+        doc.due(x, "ask(0, 0)", 7);
+        doc.due(x, "ask(0, 1)", 24);
+        x.mend(3, 5, 8);
+        x.mend(4, 5, 8);
+        doc.due(x, "ask(0, 0)", 3);
         Given.law(x, "0");
-        check.due(18, "for nobody", x.ask(0, 0), 0);
-        check.due(18, "for nobody, sum", x.ask(0, 1), 0);
+        doc.due(x, "ask(0, 0)", 0);
+        doc.due(x, "ask(0, 1)", 0);
+        CardUnsigned y = Given.office(2);
+        y.card(0, 0);
+        doc.due(y, "ask(0, 0)", 0);
+        doc.due(y, "ask(0, 1)", 12);
+        CardUnsigned z = Given.office(3);
+        z.card(200, 0);
+        z.mend(0, 5, 16);
+        doc.due(z, "ask(0, 0)", 4);
+        doc.due(z, "ask(0, 1)", 12);
+    }
+
+    private static void worth() {
+        doc.sentence(19, "What it is worth to THANK one. VOID: BAD.");
+        CardUnsigned x = Given.office(4);
+        x.card(0, 30);
+        doc.due(x, "worth(2)", 4285);
+        doc.due(x, "worth(1)", -7142);
+        doc.due(x, "worth(0)", -10000);
+        x.mend(0, 11, 4);
+        doc.due(x, "worth(2)", 0);
+        CardUnsigned y = officeOfUnlikeOnes();
+        for (int card = 0; card < 6; card++) {
+            for (int one = 0; one < 8; one++) {
+                int here = one == card ? 0 : 8 * card + one + 1;
+                int all = allOfUnlikeOnes(card);
+                doc.due(y, "worth(" + (10 * card + one) + ")", 1000 * (10 * here - 10 * (all - here)) / all);
+            }
+        }
+        cardsAndPeopleRefused("worth", "", Sentences.VOID);
+    }
+
+    private static void worthCut() {
+        doc.sentence(0, "in thousandths (cut toward 0; it COUNTS for nobody: 0)");
+        CardUnsigned x = Given.office(4);
+        x.card(0, 0);
+        x.mend(0, 11, 2);
+        x.mend(0, 12, 0);
+        doc.due(x, "worth(1)", 666);
+        x.mend(0, 11, 0);
+        x.mend(0, 12, 1);
+        doc.due(x, "worth(1)", -666);
+        doc.due(x, "worth(0)", -1000);
+        x.mend(0, 11, 99);
+        x.mend(0, 12, 99);
+        doc.due(x, "worth(3)", -33000);
+        doc.due(x, "worth(0)", -99000);
+        Given.law(x, "0");
+        for (int one = 0; one < 4; one++) {
+            doc.due(x, "worth(" + one + ")", 0);
+        }
+        Given.law(x, "s=9?99");
+        x.mend(3, 3, 9);
+        doc.due(x, "worth(3)", 99000);
+        CardUnsigned y = Given.fullOffice();
+        Given.law(y, "99");
+        y.mend(0, 11, 99);
+        y.mend(0, 12, 99);
+        doc.due(y, "worth(57)", -70714);
     }
 
     private static void thank() {
+        doc.sentence(20, "THANK: whom. BAD; NOT.");
+        cardsRefused("thank", "", -1);
+        doc.sentence(0, "NOT: nobody's is above 0).");
         CardUnsigned x = Given.office(4);
         x.card(0, 30);
-        check.due(19, "5 by 7", x.worth(2), 4285);
-        check.due(19, "1 by 7", x.worth(1), -7142);
-        check.due(19, "0", x.worth(0), -10000);
-        check.due(20, "whom", x.thank(0), 2);
+        doc.due(x, "thank(0)", 2);
         x.mend(0, 11, 4);
-        check.due(19, "nothing", x.worth(2), 0);
-        check.due(20, "nobody's is above 0", x.thank(0), -2);
-        x.mend(0, 12, 0);
-        x.mend(0, 7, -1);
-        check.due(19, "a third of 4", x.worth(1), 1333);
-        check.due(20, "of like ones the least", x.thank(0), 1);
-        x.mend(0, 11, 99);
-        x.mend(0, 12, 99);
-        check.due(19, "a third less two thirds of 99", x.worth(3), -33000);
-        check.due(19, "ct 4", x.worth(4), CardUnsigned.VOID);
-        check.due(19, "ct 10", x.worth(10), CardUnsigned.VOID);
-        check.due(19, "ct -1", x.worth(-1), CardUnsigned.VOID);
-        check.due(20, "card 1", x.thank(1), -1);
+        doc.due(x, "thank(0)", -2);
+        x.mend(0, 11, 5);
+        doc.due(x, "thank(0)", 2);
+        x.mend(0, 12, 13);
+        doc.due(x, "thank(0)", -2);
         Given.law(x, "0");
-        check.due(19, "for nobody", x.worth(1), 0);
-        check.due(20, "for nobody", x.thank(0), -2);
+        x.mend(0, 12, 0);
+        doc.due(x, "thank(0)", -2);
     }
 
     /** 5 times 99 less 494 is 1, and that by 593 is a thousandth as cut. */
-    private static void thankForAThousandth() {
+    private static void thankOfLikeOnes() {
+        doc.sentence(0, "whom it is best to thank (by thousandths as cut; of like ones the least;");
         CardUnsigned x = Given.office(8);
         x.card(0, 0);
         x.mend(5, 3, 1);
@@ -221,95 +590,262 @@ public final class ThoughtTest {
         x.mend(0, 11, 5);
         x.mend(0, 12, 1);
         Given.law(x, "s=9?99;s=1?81;83");
-        check.due(19, "a thousandth", x.worth(7), 1);
-        check.due(20, "a thousandth is above 0", x.thank(0), 7);
+        doc.due(x, "worth(7)", 1);
+        doc.due(x, "thank(0)", 7);
         x.mend(0, 11, 4);
-        check.due(20, "nobody's is above 0", x.thank(0), -2);
+        doc.due(x, "thank(0)", -2);
+        x.mend(0, 12, 0);
+        x.mend(0, 11, 10);
+        Given.law(x, "3");
+        doc.due(x, "thank(0)", 1);
+        x.mend(0, 12, 99);
+        doc.due(x, "thank(0)", -2);
+        x.mend(6, 3, 8);
+        x.mend(0, 12, 0);
+        Given.law(x, "s=9?2;s=8?1;0");
+        doc.due(x, "thank(0)", 7);
+        Given.law(x, "s=9?1;s=8?2;0");
+        doc.due(x, "thank(0)", 6);
+        x.card(100, 0);
+        Given.law(x, "3");
+        doc.due(x, "thank(1)", 0);
     }
 
     private static void next() {
+        doc.sentence(21, "NEXT: which SECRET (what 0), how many (1). BAD; NOT.");
+        for (int what = 0; what <= 1; what++) {
+            cardsRefused("next", ", " + what, -1);
+        }
+        choicesRefused("next(0, ", -1);
+        doc.sentence(0, "would leave fewest, but somebody, who COULD (of like ones the least): it; how many; NOT.");
         CardUnsigned x = Given.office(4);
+        x.card(50, 0);
+        x.mend(1, 5, 255);
+        x.mend(2, 5, 254);
+        x.mend(3, 5, 126);
+        doc.due(x, "next(0, 0)", 0);
+        doc.due(x, "next(0, 1)", 1);
+        x.mend(1, 5, 254);
+        doc.due(x, "next(0, 0)", 7);
+        doc.due(x, "next(0, 1)", 2);
+        x.mend(3, 5, 254);
+        doc.due(x, "next(0, 0)", 1);
+        doc.due(x, "next(0, 1)", 3);
+    }
+
+    private static void nextNot() {
+        doc.sentence(21, "BAD; NOT.");
+        CardUnsigned x = Given.office(3);
         x.card(50, 1);
-        check.due(21, "nobody knows any", x.next(0, 0), -2);
-        check.due(21, "nobody knows any, how many", x.next(0, 1), -2);
-        x.mend(0, 5, 1);
-        check.due(21, "it is to the one who knows", x.next(0, 0), -2);
-        x.mend(1, 5, 2 + 4 + 16);
-        x.mend(2, 5, 2 + 4);
-        check.due(21, "fewest", x.next(0, 0), 4);
-        check.due(21, "fewest, how many", x.next(0, 1), 1);
-        x.mend(1, 0, 51);
-        check.due(21, "in the office", x.next(0, 0), 1);
-        check.due(21, "in the office, how many", x.next(0, 1), 1);
-        check.due(21, "what 2", x.next(0, 2), -1);
-        check.due(21, "card 1", x.next(1, 0), -1);
-        check.due(21, "the card is as it was", x.of(0, 8), -1);
-    }
-
-    private static void write() {
-        CardUnsigned x = Given.office(3);
-        x.mend(1, 5, 128);
-        x.mend(1, 1, 40);
+        x.mend(0, 5, 255);
+        for (int what = 0; what <= 1; what++) {
+            doc.due(x, "next(0, " + what + ")", -2);
+        }
         x.mend(2, 5, 128);
-        check.due(22, "likeliest", x.write(10, 50, 0), 20);
-        check.due(23, "likeliest, above", x.written(10, 50, 0), 5);
-        check.due(23, "likeliest, below", x.written(10, 50, 1), 6);
-        check.due(22, "least likely", x.write(10, 50, 1), 30);
-        check.due(23, "least likely, above", x.written(10, 50, 10), 1);
-        check.due(23, "least likely, below", x.written(10, 50, 11), 6);
-        check.due(22, "stamped, when the other one is out", x.write(20, 50, 0), 1);
-        check.due(23, "stamped, above", x.written(20, 50, 0), 1);
-        check.due(23, "stamped, below", x.written(20, 50, 1), 1);
-        x.mend(2, 5, 0);
-        check.due(22, "a secret alone", x.write(10, 50, 0), 800);
-        check.due(22, "to itself", x.write(11, 0, 0), -1);
-        check.due(22, "nobody writes", x.write(30, 0, 0), -1);
-        check.due(22, "to nobody", x.write(3, 0, 0), -1);
-        check.due(22, "ft -1", x.write(-1, 0, 0), -1);
-        check.due(22, "minute 100", x.write(10, 100, 0), -1);
-        check.due(22, "minute -1", x.write(10, -1, 0), -1);
-        check.due(22, "how 2", x.write(10, 0, 2), -1);
-        check.due(22, "how -1", x.write(10, 0, -1), -1);
-        check.due(23, "hp 2", x.written(10, 0, 2), NONE);
-        check.due(23, "hp 20", x.written(10, 0, 20), NONE);
-        check.due(23, "hp -1", x.written(10, 0, -1), NONE);
-        check.due(23, "to itself", x.written(11, 0, 0), NONE);
-        check.due(23, "minute 100", x.written(10, 100, 0), NONE);
-        check.due(22, "no card came", x.count(1), 0);
+        doc.due(x, "next(0, 0)", 7);
+        doc.due(x, "next(0, 1)", 1);
+        x.mend(2, 0, 51);
+        doc.due(x, "next(0, 0)", -2);
+        doc.due(x, "next(0, 1)", -2);
     }
 
-    private static void writeByLaw() {
-        CardUnsigned x = Given.office(3);
-        x.card(0, 0);
-        x.card(0, 0);
-        Given.law(x, "c=2?h;99");
-        check.due(22, "its number is how many there are", x.write(10, 50, 0), 20);
-        check.due(23, "below", x.written(10, 50, 1), 1);
-        check.due(22, "0 is least likely", x.write(10, 50, 1), 30);
-        check.due(23, "0, above", x.written(10, 50, 10), 0);
-        check.due(23, "0, below", x.written(10, 50, 11), 1);
-        Given.law(x, "m*s");
-        check.due(22, "for nobody", x.write(10, 50, 0), -2);
-        check.due(22, "for nobody", x.write(10, 50, 1), -2);
-        check.due(23, "for nobody, above", x.written(10, 50, 0), 0);
-        check.due(23, "for nobody, below", x.written(10, 50, 11), 1);
-        x.mend(2, 3, 1);
-        check.due(22, "only for the other one", x.write(10, 50, 0), 1);
-        check.due(23, "only for the other one, above", x.written(10, 50, 0), 0);
+    private static void nextElseLikeThisOne() {
+        doc.sentence(0, "NEXT: which SECRET (0 .. 7) on a CARD else like this one");
+        CardUnsigned x = Given.office(4);
+        x.card(50, 801);
+        x.mend(1, 5, 128);
+        doc.due(x, "next(0, 0)", 7);
+        x.mend(2, 5, 129);
+        doc.due(x, "next(0, 0)", 0);
+        x.mend(2, 1, 49);
+        doc.due(x, "next(0, 0)", 7);
+        x.mend(0, 9, 0);
+        doc.due(x, "next(0, 0)", 0);
+        doc.due(x, "of(0, 8)", 7);
     }
 
-    private static void writeWhenFull() {
+    private static void writeAsNumbered() {
+        doc.sentence(0, "(a CARD that is not there yet: its number is how many there are)");
         CardUnsigned x = Given.office(3);
-        for (int i = 0; i < 6; i++) {
-            x.card(i, 101);
+        Given.law(x, "c*20");
+        for (int cards = 0; cards <= 6; cards++) {
+            doc.due(x, "count(1)", cards);
+            doc.due(x, "write(10, 50, 0)", cards == 0 ? -2 : 0);
+            doc.due(x, "written(10, 50, 0)", cards == 0 ? 0 : 1);
+            doc.due(x, "written(10, 50, 1)", cards == 0 ? 1 : 2);
+            x.card(cards, 101);
         }
         Given.law(x, "c=6?h+1;0");
-        check.due(22, "the seventh in thought", x.write(10, 50, 0), 20);
-        check.due(23, "the seventh in thought, above", x.written(10, 50, 0), 3);
-        check.due(23, "the seventh in thought, below", x.written(10, 50, 1), 4);
-        for (int i = 0; i < 6; i++) {
-            check.due(22, "cards are as they were", x.of(i, 6), i);
-            check.due(22, "cards are as they were", x.of(i, 8), 0);
+        doc.due(x, "write(10, 50, 0)", 20);
+        doc.due(x, "written(10, 50, 0)", 3);
+        doc.due(x, "written(10, 50, 1)", 4);
+        for (int card = 0; card < 6; card++) {
+            doc.due(x, "of(" + card + ", 6)", card);
+            doc.due(x, "of(" + card + ", 8)", 0);
+        }
+    }
+
+    private static void writeWays() {
+        doc.sentence(0, "(SECRET -1 or one it KNOWS, SHOWN -1 or 0 .. 3, STAMP 0, or 1 if it is in the office then)");
+        CardUnsigned x = Given.office(3);
+        x.mend(1, 5, 129);
+        x.mend(2, 5, 126);
+        Given.law(x, "k*50");
+        doc.due(x, "write(10, 50, 0)", 100);
+        doc.due(x, "written(10, 50, 0)", 1);
+        doc.due(x, "written(10, 50, 1)", 1);
+        doc.due(x, "write(20, 50, 0)", 200);
+        Given.law(x, "k*50*m*(h=2)");
+        doc.due(x, "write(10, 50, 0)", 121);
+        x.mend(1, 2, 3);
+        x.mend(1, 5, 128);
+        doc.due(x, "write(10, 50, 0)", 841);
+        x.mend(1, 2, 0);
+        doc.due(x, "write(10, 50, 0)", 811);
+        x.mend(1, 5, 0);
+        doc.due(x, "write(10, 50, 0)", -2);
+        Given.law(x, "h=0");
+        x.mend(1, 2, 0);
+        x.mend(2, 2, 0);
+        doc.due(x, "write(10, 50, 0)", 20);
+    }
+
+    /** Each hand is somebody's beside the two, so that none can be shown that is nobody's. */
+    private static void writeShown() {
+        doc.sentence(0, "SHOWN -1 or 0 .. 3");
+        CardUnsigned x = Given.office(5);
+        x.mend(1, 4, 1);
+        Given.law(x, "h=0?l*40+1;9");
+        doc.due(x, "write(10, 50, 0)", 10);
+        doc.due(x, "written(10, 50, 0)", 41);
+        doc.due(x, "written(10, 50, 1)", 52);
+        CardUnsigned y = Given.office(3);
+        Given.law(y, "h>0");
+        doc.due(y, "write(10, 50, 0)", 20);
+        doc.due(y, "written(10, 50, 1)", 1);
+        doc.due(y, "write(10, 50, 1)", 30);
+        doc.due(y, "written(10, 50, 10)", 0);
+    }
+
+    /** Each of eight writes to each other one, with a secret that it alone knows. */
+    private static void writeByEach() {
+        doc.sentence(0, "WRITE: one writes to another one at a minute");
+        CardUnsigned x = Given.office(8);
+        for (int one = 0; one < 8; one++) {
+            x.mend(one, 5, 1 << one);
+        }
+        for (int ft = 0; ft <= 100; ft++) {
+            boolean two = ft % 10 < 8 && ft < 80 && ft / 10 != ft % 10;
+            doc.due(x, "write(" + ft + ", 50, 0)", two ? 100 * (ft / 10 + 1) : -1);
+            doc.due(x, "written(" + ft + ", 50, 0)", two ? 1 : NONE);
+            doc.due(x, "written(" + ft + ", 50, 1)", two ? 1 : NONE);
+        }
+    }
+
+    private static void writeStamp() {
+        doc.sentence(0, "STAMP 0, or 1 if it is in the office then");
+        CardUnsigned x = Given.office(3);
+        x.mend(1, 0, 20);
+        x.mend(1, 1, 40);
+        Given.law(x, "m");
+        doc.due(x, "write(10, 19, 0)", -2);
+        doc.due(x, "write(10, 20, 0)", 1);
+        doc.due(x, "write(10, 40, 0)", 1);
+        doc.due(x, "write(10, 41, 0)", -2);
+        doc.due(x, "written(10, 40, 1)", 2);
+        x.mend(1, 4, 1);
+        Given.law(x, "l?1+m*20;1");
+        doc.due(x, "written(10, 40, 0)", 21);
+        doc.due(x, "written(10, 40, 1)", 22);
+        x.mend(1, 4, 0);
+        Given.law(x, "m");
+        x.mend(2, 1, 39);
+        doc.due(x, "written(10, 39, 1)", 2);
+        doc.due(x, "written(10, 40, 1)", 1);
+        doc.due(x, "write(20, 0, 1)", 1);
+        doc.due(x, "write(20, 39, 1)", 1);
+        doc.due(x, "write(20, 40, 1)", -2);
+    }
+
+    private static void writeOfLikeOnes() {
+        doc.sentence(0, "and STAMP (of like ones the least;");
+        CardUnsigned x = Given.office(3);
+        x.mend(1, 5, 129);
+        Given.law(x, "7");
+        doc.due(x, "write(10, 50, 1)", 0);
+        doc.due(x, "write(10, 50, 0)", 100);
+        x.mend(2, 5, 129);
+        doc.due(x, "write(10, 50, 0)", 0);
+        Given.law(x, "h=2?1+m;9");
+        doc.due(x, "write(10, 50, 0)", 30);
+        doc.due(x, "write(10, 50, 1)", 20);
+        Given.law(x, "h=2?3*(1+m);9*(1+m)");
+        doc.due(x, "write(10, 50, 0)", 30);
+        doc.due(x, "write(10, 50, 1)", 20);
+        doc.due(x, "written(10, 50, 0)", 3);
+        doc.due(x, "written(10, 50, 1)", 4);
+    }
+
+    private static void writeForNobody() {
+        doc.sentence(0, "a way by which it COUNTS for nobody is none)");
+        CardUnsigned x = Given.office(3);
+        Given.law(x, "m*s");
+        for (int how = 0; how <= 1; how++) {
+            doc.due(x, "write(10, 50, " + how + ")", -2);
+            doc.due(x, "written(10, 50, " + 10 * how + ")", 0);
+            doc.due(x, "written(10, 50, " + (10 * how + 1) + ")", 1);
+        }
+        x.mend(2, 3, 1);
+        for (int how = 0; how <= 1; how++) {
+            doc.due(x, "write(10, 50, " + how + ")", 1);
+            doc.due(x, "written(10, 50, " + 10 * how + ")", 0);
+            doc.due(x, "written(10, 50, " + (10 * how + 1) + ")", 1);
+            doc.due(x, "write(20, 50, " + how + ")", 1);
+            doc.due(x, "written(20, 50, " + 10 * how + ")", 1);
+        }
+    }
+
+    private static void writeRefused() {
+        doc.sentence(22, "(ft: 10 times who writes and whom TO, unlike) so as to be LIKELIEST (how 0), least likely (1): the way. BAD; NOT.");
+        CardUnsigned x = Given.fullOffice();
+        for (String ft : new String[] {"-1", "-10", "0", "11", "77", "8", "9", "80", "87", "100", "MIN", "MAX"}) {
+            doc.refused(x, "write(" + ft + ", 50, 0)", -1);
+        }
+        for (String minute : new String[] {"-1", "100", "MIN", "MAX"}) {
+            doc.refused(x, "write(10, " + minute + ", 1)", -1);
+        }
+        choicesRefused("write(10, 50, ", -1);
+        doc.refused(new CardUnsigned(), "write(10, 0, 0)", -1);
+        doc.refused(Given.office(1), "write(10, 0, 0)", -1);
+        doc.refused(x, "write(70, 0, 0)", 0);
+        doc.refused(x, "write(67, 99, 1)", 0);
+        Given.law(x, "0");
+        doc.refused(x, "write(70, 0, 0)", -2);
+        doc.refused(x, "write(70, 0, 1)", -2);
+    }
+
+    private static void written() {
+        doc.sentence(23, "That, as a fraction (hp: 10 times how, and part; NOT: 0 by 1). Long.MIN_VALUE: BAD.");
+        CardUnsigned x = Given.office(3);
+        long[] due = {5, 6, 1, 6};
+        for (int how = 0; how <= 1; how++) {
+            for (int part = 0; part <= 1; part++) {
+                doc.due(x, "written(10, 50, " + (10 * how + part) + ")", due[2 * how + part]);
+            }
+        }
+        for (String hp : new String[] {"-1", "2", "9", "12", "20", "21", "100", "MIN", "MAX"}) {
+            doc.refused(x, "written(10, 50, " + hp + ")", NONE);
+        }
+        for (String ft : new String[] {"-1", "0", "11", "3", "30", "MIN", "MAX"}) {
+            doc.refused(x, "written(" + ft + ", 50, 0)", NONE);
+        }
+        for (String minute : new String[] {"-1", "100", "MIN", "MAX"}) {
+            doc.refused(x, "written(10, " + minute + ", 0)", NONE);
+        }
+        Given.law(x, "0");
+        for (int how = 0; how <= 1; how++) {
+            doc.refused(x, "written(10, 50, " + 10 * how + ")", 0);
+            doc.refused(x, "written(10, 50, " + (10 * how + 1) + ")", 1);
         }
     }
 }
