@@ -50,14 +50,13 @@ public final class ActsTest {
     }
 
     private static void bodyFull() {
-        doc.sentence(38, "BAD, FULL.");
+        doc.sentence(0, "LOOKS' ways are kept by call as BODIES 0 .. 49");
         CardUnsigned x = new CardUnsigned();
-        for (String kind : new String[] {"-1", "8", "MIN", "MAX"}) {
-            doc.refused(x, "body(" + kind + ")", -1);
-        }
+        doc.refusedEach(x, "body(#)", -1, "-1", "8", "MIN", "MAX");
         for (int i = 0; i < 50; i++) {
             doc.due(x, "body(7)", i);
         }
+        doc.sentence(38, "BAD, FULL.");
         doc.refused(x, "body(0)", -3);
         doc.refused(x, "body(7)", -3);
         doc.refused(x, "body(8)", -1);
@@ -149,7 +148,8 @@ public final class ActsTest {
     }
 
     private static void trace() {
-        doc.sentence(0, "THE TRACE: numbers of the bodies that ran in the latest act(), as they began");
+        doc.sentence(0, "looks(..) and so on: the body of its own KIND, or of the next KIND above that has one; "
+            + "super: from the KIND above the body's on. THE TRACE: numbers of the bodies that ran in the latest act(), as they began");
         int[][][] due = {
             {{1}, {10, 1}, {11}, {2, 10, 1, 11}},
             {{20, 1}, {10, 20, 1}, {11}, {2, 10, 20, 1, 11}},
@@ -198,9 +198,7 @@ public final class ActsTest {
         x.act(0, 0, 1);
         doc.due(x, "trace(0)", 20);
         doc.due(x, "trace(1)", 1);
-        for (String i : new String[] {"-1", "2", "23", "24", "MIN", "MAX"}) {
-            doc.refused(x, "trace(" + i + ")", -1);
-        }
+        doc.refusedEach(x, "trace(#)", -1, "-1", "2", "23", "24", "MIN", "MAX");
     }
 
     private static void keep() {
@@ -231,9 +229,7 @@ public final class ActsTest {
         CardUnsigned x = new CardUnsigned();
         doc.refused(x, "keep(0, 0)", -1);
         x.body(0);
-        for (String body : new String[] {"1", "49", "50", "-2", "MIN", "MAX"}) {
-            doc.refused(x, "keep(0, " + body + ")", -1);
-        }
+        doc.refusedEach(x, "keep(0, #)", -1, "1", "49", "50", "-2", "MIN", "MAX");
         for (String shelf : NO_SHELVES) {
             doc.refused(x, "keep(" + shelf + ", 0)", -1);
             doc.refused(x, "keep(" + shelf + ", -1)", -1);
@@ -327,13 +323,9 @@ public final class ActsTest {
             doc.refused(x, "put(0, " + i + ", 1)", -11);
             doc.refused(x, "put(1, " + i + ", 1)", -12);
             doc.refused(x, "put(3, " + i + ", 1)", -13);
-            for (String shelf : NO_SHELVES) {
-                doc.refused(x, "put(" + shelf + ", " + i + ", 1)", -1);
-            }
+            doc.refusedEach(x, "put(#, " + i + ", 1)", -1, NO_SHELVES);
         }
-        for (String i : new String[] {"5", "6", "59", "60", "-1", "MIN", "MAX"}) {
-            doc.refused(x, "put(2, " + i + ", 1)", -13);
-        }
+        doc.refusedEach(x, "put(2, #, 1)", -13, "5", "6", "59", "60", "-1", "MIN", "MAX");
         doc.due(x, "put(2, 4, 1)", 1);
     }
 
@@ -365,9 +357,7 @@ public final class ActsTest {
                     doc.refused(x, "element(" + shelf + ", " + i + ")", NONE);
                 }
             }
-            for (String shelf : NO_SHELVES) {
-                doc.refused(x, "element(" + shelf + ", " + i + ")", NONE);
-            }
+            doc.refusedEach(x, "element(#, " + i + ")", NONE, NO_SHELVES);
         }
         x.put(2, 0, 5);
         x.put(2, 4, Long.MAX_VALUE);
@@ -460,9 +450,7 @@ public final class ActsTest {
             "0, 0, 1, 0, 5", "0, 4, 1, 0, 3", "0, 0, 1, 3, 2", "0, 7, 1, 0, 0", "0, 0, 1, 5, 0", "0, 1, 1, 1, MAX",
             "0, MAX, 1, 0, 1", "0, 0, 1, MAX, 1", "0, MAX, 1, MAX, MAX", "0, MIN, 1, 0, 1", "0, MIN, 1, MIN, MIN", "0, 6, 1, 0, 1",
             "0, 0, 0, 1, 6", "0, 1, 0, 0, 6"};
-        for (String call : none) {
-            doc.refused(x, "shift(" + call + ")", -13);
-        }
+        doc.refusedEach(x, "shift(#)", -13, none);
         doc.refused(x, "shift(0, 6, 1, 4, 0)", 0);
         doc.due(x, "shift(0, 5, 1, 3, 1)", 1);
         elements(x, 1, 0, 0, 0, 6);
@@ -516,9 +504,7 @@ public final class ActsTest {
                 doc.refused(x, "taken(" + shelf + ", " + k + ")", -1);
             }
         }
-        for (String shelf : NO_SHELVES) {
-            doc.refused(x, "taken(" + shelf + ", 0)", -1);
-        }
+        doc.refusedEach(x, "taken(#, 0)", -1, NO_SHELVES);
     }
 
     private static void count() {
@@ -555,8 +541,6 @@ public final class ActsTest {
         doc.due(x, "count(5)", 14);
         x.act(0, 0, 0);
         doc.due(x, "count(5)", 2);
-        for (String what : new String[] {"-1", "6", "MIN", "MAX"}) {
-            doc.refused(x, "count(" + what + ")", -1);
-        }
+        doc.refusedEach(x, "count(#)", -1, "-1", "6", "MIN", "MAX");
     }
 }

@@ -38,24 +38,16 @@ public final class AnswersTest {
         }
         String[] calls = {"person(4)", "person(-1)", "card(800, 0)", "card(0, 2)", "card(-1, 900)", "send(11, 0)", "send(10, 100)",
             "send(10, 2)", "feed(256)", "feed(-1)", "body(8)", "body(-1)"};
-        for (String call : calls) {
-            doc.refused(x, call, -1);
-        }
-        for (String call : new String[] {"person(3)", "card(700, 841)", "send(10, 1)", "feed(255)", "body(7)"}) {
-            doc.refused(x, call, -3);
-        }
+        doc.refusedEach(x, "#", -1, calls);
+        doc.refusedEach(x, "#", -3, "person(3)", "card(700, 841)", "send(10, 1)", "feed(255)", "body(7)");
     }
 
     private static void badAheadOfState() {
         doc.sentence(0, FIRST);
         CardUnsigned x = Given.fullOffice();
         x.pass(99);
-        for (String call : new String[] {"pass(0)", "pass(100)", "thanked(8)", "thanked(60)", "thanked(-1)"}) {
-            doc.refused(x, call, -1);
-        }
-        for (String call : new String[] {"pass(1)", "pass(99)", "thanked(0)", "thanked(57)"}) {
-            doc.refused(x, call, -5);
-        }
+        doc.refusedEach(x, "#", -1, "pass(0)", "pass(100)", "thanked(8)", "thanked(60)", "thanked(-1)");
+        doc.refusedEach(x, "#", -5, "pass(1)", "pass(99)", "thanked(0)", "thanked(57)");
     }
 
     private static void badAheadOfNot() {
@@ -65,14 +57,10 @@ public final class AnswersTest {
         Given.law(x, "0");
         String[] calls = {"likeliest(5, 0)", "likeliest(5, 1)", "hands(63, 0)", "hands(32, 1)", "hears(7, 7)", "thank(5)",
             "next(5, 0)", "next(0, 1)", "write(10, 5, 0)", "write(10, 5, 1)", "hope(5, 0)"};
-        for (String call : calls) {
-            doc.refused(x, call, -2);
-        }
+        doc.refusedEach(x, "#", -2, calls);
         String[] bad = {"likeliest(5, 2)", "likeliest(6, 0)", "hands(63, 2)", "hands(64, 0)", "hears(8, 7)", "hears(7, 8)", "thank(6)",
             "next(5, 2)", "next(6, 0)", "write(11, 5, 0)", "write(10, 100, 1)", "write(10, 5, 2)", "hope(5, 2)", "hope(6, 0)"};
-        for (String call : bad) {
-            doc.refused(x, call, -1);
-        }
+        doc.refusedEach(x, "#", -1, bad);
     }
 
     /** Shelf 0 holds nothing, 1 a look, 2 a row of longs. */

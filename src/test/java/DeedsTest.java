@@ -19,6 +19,7 @@ public final class DeedsTest {
         backOfCardsThatCame();
         backOfNone();
         undo();
+        undoTheLatestFirst();
         redo();
         redoBehindAnother();
         theSameNumberIsNone();
@@ -50,9 +51,7 @@ public final class DeedsTest {
         doc.sentence(30, "n (1 .. 99) minutes pass: NOW. BAD; STATE: it would be more than 99.");
         CardUnsigned x = new CardUnsigned();
         for (int now = 0; now <= 99; now += 33) {
-            for (String n : new String[] {"0", "100", "-1", "MIN", "MAX"}) {
-                doc.refused(x, "pass(" + n + ")", -1);
-            }
+            doc.refusedEach(x, "pass(#)", -1, "0", "100", "-1", "MIN", "MAX");
             if (now > 0) {
                 doc.refused(x, "pass(" + (100 - now) + ")", -5);
                 doc.refused(x, "pass(99)", -5);
@@ -106,12 +105,8 @@ public final class DeedsTest {
         x.pass(50);
         x.mend(1, 5, 4);
         x.mend(1, 0, 51);
-        for (String ft : new String[] {"-1", "0", "11", "22", "3", "13", "30", "100", "MIN", "MAX"}) {
-            doc.refused(x, "send(" + ft + ", 0)", -1);
-        }
-        for (String what : new String[] {"-1", "2", "50", "900", "MIN", "MAX"}) {
-            doc.refused(x, "send(10, " + what + ")", -1);
-        }
+        doc.refusedEach(x, "send(#, 0)", -1, "-1", "0", "11", "22", "3", "13", "30", "100", "MIN", "MAX");
+        doc.refusedEach(x, "send(10, #)", -1, "-1", "2", "50", "900", "MIN", "MAX");
         for (int secret = 0; secret < 8; secret++) {
             doc.refused(x, "send(20, " + 100 * (secret + 1) + ")", -1);
             if (secret != 2) {
@@ -204,9 +199,7 @@ public final class DeedsTest {
         CardUnsigned x = Given.office(3);
         x.send(10, 0);
         x.card(0, 0);
-        for (String ct : new String[] {"-1", "3", "9", "13", "20", "21", "60", "MIN", "MAX"}) {
-            doc.refused(x, "thanked(" + ct + ")", -1);
-        }
+        doc.refusedEach(x, "thanked(#)", -1, "-1", "3", "9", "13", "20", "21", "60", "MIN", "MAX");
         doc.refused(new CardUnsigned(), "thanked(0)", -1);
         doc.due(x, "thanked(2)", 0);
     }
@@ -222,9 +215,7 @@ public final class DeedsTest {
         }
         x.pass(7);
         led(x, 6, 5, 1, 4, 7);
-        for (String what : new String[] {"-1", "5", "MIN", "MAX"}) {
-            doc.refused(x, "led(" + what + ")", -1);
-        }
+        doc.refusedEach(x, "led(#)", -1, "-1", "5", "MIN", "MAX");
     }
 
     private static void image() {
@@ -336,6 +327,22 @@ public final class DeedsTest {
         doc.due(x, "of(1, 3)", 0);
         doc.due(x, "count(3)", 0);
         doc.refused(x, "undo()", -5);
+    }
+
+    private static void undoTheLatestFirst() {
+        doc.sentence(0, "can be UNDONE, the latest first, and DONE AGAIN");
+        CardUnsigned x = Given.office(1);
+        for (int v = 1; v <= 9; v++) {
+            x.mend(0, 3, v);
+        }
+        for (int v = 8; v >= 0; v--) {
+            doc.due(x, "undo()", v);
+            doc.due(x, "of(0, 3)", v);
+        }
+        for (int v = 1; v <= 9; v++) {
+            doc.due(x, "redo()", 9 - v);
+            doc.due(x, "of(0, 3)", v);
+        }
     }
 
     private static void redo() {

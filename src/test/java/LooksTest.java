@@ -28,6 +28,7 @@ public final class LooksTest {
         drawn();
         drawnWraps();
         drawnOfNobody();
+        drawnTimes();
         drawnRefused();
         doc.end(24, 29);
     }
@@ -73,9 +74,7 @@ public final class LooksTest {
             for (int shelf = 1; shelf <= 5; shelf++) {
                 doc.refused(x, "looks(" + shelf + ", " + one + ")", -12);
             }
-            for (String shelf : NO_SHELVES) {
-                doc.refused(x, "looks(" + shelf + ", " + one + ")", -1);
-            }
+            doc.refusedEach(x, "looks(#, " + one + ")", -1, NO_SHELVES);
         }
         x.row(3, 0, 5);
         for (String one : new String[] {"2", "7", "8", "-3", "MIN", "MAX"}) {
@@ -164,9 +163,7 @@ public final class LooksTest {
             for (int shelf = 1; shelf <= 5; shelf++) {
                 doc.refused(x, "since(" + shelf + ", " + m + ")", -12);
             }
-            for (String shelf : NO_SHELVES) {
-                doc.refused(x, "since(" + shelf + ", " + m + ")", -1);
-            }
+            doc.refusedEach(x, "since(#, " + m + ")", -1, NO_SHELVES);
         }
         x.row(3, 0, 60);
         for (String m : new String[] {"-1", "100", "MIN", "MAX"}) {
@@ -178,6 +175,8 @@ public final class LooksTest {
 
     private static void sinceOfLikeOnes() {
         doc.sentence(25, "SINCE. NOT.");
+        doc.due(sinceNobody(), "since(0, 0)", -2);
+        doc.sentence(0, "oftener than ahead of it by most (of like ones the least; NOT: nobody did)");
         CardUnsigned x = Given.office(8);
         Given.row(x, 0, 0, 7, 6, 7, 6, 6, 7, 9, 9, 9);
         doc.due(x, "since(0, 2)", 6);
@@ -188,8 +187,13 @@ public final class LooksTest {
         Given.row(x, 0, 0, 6, 7, 6, 7);
         doc.due(x, "since(0, 2)", -2);
         doc.due(x, "since(0, 0)", 6);
+        doc.due(sinceNobody(), "since(0, 99)", -2);
+    }
+
+    private static CardUnsigned sinceNobody() {
+        CardUnsigned x = Given.office(8);
         x.row(0, 0, 0);
-        doc.due(x, "since(0, 0)", -2);
+        return x;
     }
 
     /** Three people; the first card is to the first one; the second to the second one, with a secret. */
@@ -286,9 +290,7 @@ public final class LooksTest {
         for (int shelf = 1; shelf <= 5; shelf++) {
             doc.refused(x, "judge(" + shelf + ")", -12);
         }
-        for (String shelf : NO_SHELVES) {
-            doc.refused(x, "judge(" + shelf + ")", -1);
-        }
+        doc.refusedEach(x, "judge(#)", -1, NO_SHELVES);
         x.row(2, 1, 0);
         doc.due(x, "judge(2)", -2);
     }
@@ -362,14 +364,10 @@ public final class LooksTest {
             for (int shelf = 0; shelf <= 5; shelf++) {
                 doc.refused(x, "filled(" + shelf + ", " + what + ")", NONE);
             }
-            for (String shelf : NO_SHELVES) {
-                doc.refused(x, "filled(" + shelf + ", " + what + ")", NONE);
-            }
+            doc.refusedEach(x, "filled(#, " + what + ")", NONE, NO_SHELVES);
         }
         x.row(2, 1, 0);
-        for (String what : new String[] {"-1", "2", "MIN", "MAX"}) {
-            doc.refused(x, "filled(2, " + what + ")", NONE);
-        }
+        doc.refusedEach(x, "filled(2, #)", NONE, "-1", "2", "MIN", "MAX");
         doc.due(x, "filled(2, 1)", 1);
     }
 
@@ -430,9 +428,7 @@ public final class LooksTest {
         Given.law(x, "0");
         doc.due(x, "hope(5, 0)", -2);
         doc.due(x, "hope(5, 1)", 0);
-        for (String what : new String[] {"-1", "2", "MIN", "MAX"}) {
-            doc.refused(x, "hope(5, " + what + ")", -1);
-        }
+        doc.refusedEach(x, "hope(5, #)", -1, "-1", "2", "MIN", "MAX");
         for (String card : new String[] {"-1", "6", "MIN", "MAX"}) {
             doc.refused(x, "hope(" + card + ", 0)", -1);
             doc.refused(x, "hope(" + card + ", 1)", -1);
@@ -483,18 +479,24 @@ public final class LooksTest {
         doc.due(x, "drawn(0, 5, 50, 0)", 0);
     }
 
+    private static void drawnTimes() {
+        doc.sentence(0, "DRAWN: n times (1 .. 50) by a SEED");
+        CardUnsigned x = Given.office(2);
+        x.card(0, 0);
+        for (int n = 1; n <= 50; n++) {
+            doc.due(x, "drawn(0, 9, " + n + ", 1)", n);
+            doc.due(x, "drawn(0, 9, " + n + ", -1)", n);
+        }
+        doc.refused(x, "drawn(0, 9, 51, 1)", -1);
+        doc.refused(x, "drawn(0, 9, 0, 1)", -1);
+    }
+
     private static void drawnRefused() {
         doc.sentence(29, "DRAWN: how often one (one 0 on), the most often any (-1). BAD.");
         CardUnsigned x = Given.fullOffice();
-        for (String n : new String[] {"0", "51", "-1", "MIN", "MAX"}) {
-            doc.refused(x, "drawn(0, 0, " + n + ", 0)", -1);
-        }
-        for (String one : new String[] {"-2", "8", "MIN", "MAX"}) {
-            doc.refused(x, "drawn(0, 0, 1, " + one + ")", -1);
-        }
-        for (String card : new String[] {"-1", "6", "MIN", "MAX"}) {
-            doc.refused(x, "drawn(" + card + ", 0, 1, 0)", -1);
-        }
+        doc.refusedEach(x, "drawn(0, 0, #, 0)", -1, "0", "51", "-1", "MIN", "MAX");
+        doc.refusedEach(x, "drawn(0, 0, 1, #)", -1, "-2", "8", "MIN", "MAX");
+        doc.refusedEach(x, "drawn(#, 0, 1, 0)", -1, "-1", "6", "MIN", "MAX");
         doc.refused(new CardUnsigned(), "drawn(0, 0, 1, -1)", -1);
         CardUnsigned y = Given.office(7);
         y.card(0, 0);

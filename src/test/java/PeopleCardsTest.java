@@ -7,10 +7,12 @@ public final class PeopleCardsTest {
         newObject();
         person();
         personFull();
+        peopleAndCardsAsTheyCome();
         numbersOfPeople();
         numbersOfCards();
         numbersOfAll();
         people();
+        peopleByThrees();
         peopleRefused();
         peopleMissing();
         peopleAtTheEnd();
@@ -77,10 +79,26 @@ public final class PeopleCardsTest {
         refusedHands(x);
     }
 
-    private static void refusedHands(CardUnsigned x) {
-        for (String hand : new String[] {"-1", "4", "256", "MIN", "MAX"}) {
-            doc.refused(x, "person(" + hand + ")", -1);
+    private static void peopleAndCardsAsTheyCome() {
+        CardUnsigned x = new CardUnsigned();
+        doc.sentence(0, "PEOPLE 0 .. 7, as they come");
+        for (int i = 0; i <= 7; i++) {
+            doc.due(x, "person(2)", i);
         }
+        doc.due(x, "person(2)", -3);
+        doc.due(x, "of(7, 2)", 2);
+        doc.due(x, "of(8, 2)", VOID);
+        doc.sentence(0, "CARDS 0 .. 5, as they come: TO (one of PEOPLE)");
+        for (int i = 0; i <= 5; i++) {
+            doc.due(x, "card(" + 100 * (i + 2) + ", 0)", i);
+            doc.due(x, "of(" + i + ", 13)", i + 2);
+        }
+        doc.due(x, "card(0, 0)", -3);
+        doc.due(x, "of(6, 13)", VOID);
+    }
+
+    private static void refusedHands(CardUnsigned x) {
+        doc.refusedEach(x, "person(#)", -1, "-1", "4", "256", "MIN", "MAX");
     }
 
     private static void numbersOfPeople() {
@@ -140,6 +158,25 @@ public final class PeopleCardsTest {
         doc.due(x, "count(3)", 0);
     }
 
+    private static void peopleByThrees() {
+        doc.sentence(0, "PEOPLE FROM A ROW of shorts, from a place on: by threes HAND, LIKES, KNOWS: n of them");
+        int[] row = new int[24];
+        for (int i = 0; i < 24; i++) {
+            row[i] = i % 3 == 0 ? i / 3 % 4 : 10 * i + i % 3;
+        }
+        for (int n = 1; n <= 8; n++) {
+            CardUnsigned x = new CardUnsigned();
+            Given.row(x, 0, 1, row);
+            doc.due(x, "people(0, 0, " + n + ")", n);
+            doc.due(x, "count(0)", n);
+            for (int one = 0; one < n; one++) {
+                doc.due(x, "of(" + one + ", 2)", row[3 * one]);
+                doc.due(x, "of(" + one + ", 4)", row[3 * one + 1]);
+                doc.due(x, "of(" + one + ", 5)", row[3 * one + 2]);
+            }
+        }
+    }
+
     private static void peopleRefused() {
         doc.sentence(3, "BAD, -12 (no ROW of shorts; a SHELF that holds nothing is missing).");
         CardUnsigned x = new CardUnsigned();
@@ -162,9 +199,7 @@ public final class PeopleCardsTest {
                 doc.refused(x, "people(" + shelf + ", -1, " + n + ")", -1);
             }
         }
-        for (String shelf : new String[] {"-1", "6", "MIN", "MAX"}) {
-            doc.refused(x, "people(" + shelf + ", 0, 1)", -1);
-        }
+        doc.refusedEach(x, "people(#, 0, 1)", -1, "-1", "6", "MIN", "MAX");
         doc.due(x, "people(0, 0, 8)", 3);
     }
 
@@ -196,9 +231,7 @@ public final class PeopleCardsTest {
         }
         x.row(0, 1, 60);
         doc.due(x, "people(0, 57, 8)", 1);
-        for (String i : new String[] {"58", "59", "60", "61", "MAX", "-1", "-3", "MIN"}) {
-            doc.refused(x, "people(0, " + i + ", 8)", 0);
-        }
+        doc.refusedEach(x, "people(0, #, 8)", 0, "58", "59", "60", "61", "MAX", "-1", "-3", "MIN");
     }
 
     private static void peopleNotSo() {
@@ -268,12 +301,8 @@ public final class PeopleCardsTest {
     private static void cardAsNumbers() {
         doc.sentence(0, "ta: 100 times whom it is TO, and AT; what: 100 times SECRET and 1, 10 times SHOWN and 1, and STAMP");
         CardUnsigned x = Given.office(8);
-        for (String ta : new String[] {"-1", "-100", "800", "900", "MIN", "MAX"}) {
-            doc.refused(x, "card(" + ta + ", 0)", -1);
-        }
-        for (String what : new String[] {"-1", "2", "9", "50", "51", "90", "842", "850", "900", "901", "MIN", "MAX"}) {
-            doc.refused(x, "card(0, " + what + ")", -1);
-        }
+        doc.refusedEach(x, "card(#, 0)", -1, "-1", "-100", "800", "900", "MIN", "MAX");
+        doc.refusedEach(x, "card(0, #)", -1, "-1", "2", "9", "50", "51", "90", "842", "850", "900", "901", "MIN", "MAX");
         doc.due(x, "card(799, 100)", 0);
         doc.due(x, "of(0, 13)", 7);
         doc.due(x, "of(0, 6)", 99);
@@ -309,14 +338,10 @@ public final class PeopleCardsTest {
         x.card(0, 0);
         for (int what = 0; what <= 12; what++) {
             int many = what <= 5 ? 3 : 1;
-            for (String number : new String[] {"-1", String.valueOf(many), "8", "MIN", "MAX"}) {
-                doc.refused(x, "mend(" + number + ", " + what + ", 1)", VOID);
-            }
+            doc.refusedEach(x, "mend(#, " + what + ", 1)", VOID, "-1", String.valueOf(many), "8", "MIN", "MAX");
             doc.due(x, "mend(" + (many - 1) + ", " + what + ", 1)", x.of(many - 1, what));
         }
-        for (String what : new String[] {"-1", "13", "14", "15", "16", "MIN", "MAX"}) {
-            doc.refused(x, "mend(0, " + what + ", 0)", VOID);
-        }
+        doc.refusedEach(x, "mend(0, #, 0)", VOID, "-1", "13", "14", "15", "16", "MIN", "MAX");
     }
 
     private static void of() {
@@ -351,13 +376,9 @@ public final class PeopleCardsTest {
         x.card(0, 0);
         for (int what = 0; what <= 15; what++) {
             int many = what <= 5 ? 2 : 1;
-            for (String number : new String[] {"-1", String.valueOf(many), "8", "MIN", "MAX"}) {
-                doc.refused(x, "of(" + number + ", " + what + ")", VOID);
-            }
+            doc.refusedEach(x, "of(#, " + what + ")", VOID, "-1", String.valueOf(many), "8", "MIN", "MAX");
         }
-        for (String what : new String[] {"-1", "16", "MIN", "MAX"}) {
-            doc.refused(x, "of(0, " + what + ")", VOID);
-        }
+        doc.refusedEach(x, "of(0, #)", VOID, "-1", "16", "MIN", "MAX");
     }
 
     private static void feed() {
@@ -378,8 +399,6 @@ public final class PeopleCardsTest {
     }
 
     private static void refusedLetters(CardUnsigned x) {
-        for (String letter : new String[] {"-1", "256", "MIN", "MAX"}) {
-            doc.refused(x, "feed(" + letter + ")", -1);
-        }
+        doc.refusedEach(x, "feed(#)", -1, "-1", "256", "MIN", "MAX");
     }
 }

@@ -85,6 +85,13 @@ final class Sentences {
         check.due(promise, "what can be read behind " + call, Given.state(x), before);
     }
 
+    /** The same of a call with each of these numbers in the place of #. */
+    void refusedEach(CardUnsigned x, String call, long want, String... numbers) {
+        for (String number : numbers) {
+            refused(x, call.replace("#", number), want);
+        }
+    }
+
     private long answer(CardUnsigned x, String call) {
         String name = call.substring(0, call.indexOf('('));
         String inside = call.substring(call.indexOf('(') + 1, call.length() - 1);

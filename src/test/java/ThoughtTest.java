@@ -11,6 +11,7 @@ public final class ThoughtTest {
         couldRefused();
         counts();
         likely();
+        likelyRefused();
         likelyLowestTerms();
         likelyOfNobody();
         likeliest();
@@ -39,6 +40,8 @@ public final class ThoughtTest {
         writeByEach();
         writeOfLikeOnes();
         writeForNobody();
+        writeNot();
+        writeInLowestTerms();
         writeRefused();
         written();
         doc.end(9, 23);
@@ -47,9 +50,7 @@ public final class ThoughtTest {
     /** A call with each of these cards is refused, when there are six. */
     private static void cardsRefused(String name, String behind, long want) {
         CardUnsigned x = Given.fullOffice();
-        for (String card : new String[] {"-1", "6", "7", "MIN", "MAX"}) {
-            doc.refused(x, name + "(" + card + behind + ")", want);
-        }
+        doc.refusedEach(x, name + "(#" + behind + ")", want, "-1", "6", "7", "MIN", "MAX");
         doc.refused(new CardUnsigned(), name + "(0" + behind + ")", want);
         doc.refused(Given.office(8), name + "(0" + behind + ")", want);
     }
@@ -57,9 +58,7 @@ public final class ThoughtTest {
     /** A call with each of these numbers of a card and one is refused, when there are six and eight. */
     private static void cardsAndPeopleRefused(String name, String behind, long want) {
         CardUnsigned x = Given.fullOffice();
-        for (String ct : new String[] {"-1", "-10", "8", "9", "58", "59", "60", "67", "MIN", "MAX"}) {
-            doc.refused(x, name + "(" + ct + behind + ")", want);
-        }
+        doc.refusedEach(x, name + "(#" + behind + ")", want, "-1", "-10", "8", "9", "58", "59", "60", "67", "MIN", "MAX");
         doc.refused(new CardUnsigned(), name + "(0" + behind + ")", want);
         doc.refused(Given.office(1), name + "(0" + behind + ")", want);
         CardUnsigned y = Given.office(3);
@@ -73,9 +72,7 @@ public final class ThoughtTest {
         CardUnsigned x = new CardUnsigned();
         x.person(0);
         for (int cards = 0; cards <= 6; cards++) {
-            for (String set : new String[] {"-1", String.valueOf(1 << cards), "64", "128", "MIN", "MAX"}) {
-                doc.refused(x, name + "(" + set + behind + ")", -1);
-            }
+            doc.refusedEach(x, name + "(#" + behind + ")", -1, "-1", String.valueOf(1 << cards), "64", "128", "MIN", "MAX");
             x.card(0, 0);
         }
     }
@@ -83,9 +80,7 @@ public final class ThoughtTest {
     /** Of two numbers to choose by, others are refused. */
     private static void choicesRefused(String ahead, long want) {
         CardUnsigned x = Given.fullOffice();
-        for (String what : new String[] {"-1", "2", "MIN", "MAX"}) {
-            doc.refused(x, ahead + what + ")", want);
-        }
+        doc.refusedEach(x, ahead + "#)", want, "-1", "2", "MIN", "MAX");
     }
 
     private static void could() {
@@ -137,13 +132,14 @@ public final class ThoughtTest {
     }
 
     private static void counts() {
-        doc.sentence(10, "How much it COUNTS for one. BAD.");
         CardUnsigned x = officeOfUnlikeOnes();
+        doc.sentence(0, "ct: 10 times the CARD, and one of PEOPLE");
         for (int card = 0; card < 6; card++) {
             for (int one = 0; one < 8; one++) {
                 doc.due(x, "counts(" + (10 * card + one) + ")", one == card ? 0 : 8 * card + one + 1);
             }
         }
+        doc.sentence(10, "How much it COUNTS for one. BAD.");
         cardsAndPeopleRefused("counts", "", -1);
     }
 
@@ -166,13 +162,14 @@ public final class ThoughtTest {
     }
 
     private static void likely() {
-        doc.sentence(11, "LIKELY. Long.MIN_VALUE: BAD.");
+        doc.sentence(11, "LIKELY.");
         CardUnsigned x = Given.office(4);
         x.card(0, 30);
         doc.due(x, "likely(1, 0)", 1);
         doc.due(x, "likely(1, 1)", 7);
         doc.due(x, "likely(2, 0)", 5);
         doc.due(x, "likely(2, 1)", 7);
+        doc.sentence(0, "cards in thought (part 0 above, 1 below the line)");
         CardUnsigned y = officeOfUnlikeOnes();
         for (int card = 0; card < 6; card++) {
             for (int one = 0; one < 8; one++) {
@@ -182,6 +179,10 @@ public final class ThoughtTest {
                 doc.due(y, "likely(" + (10 * card + one) + ", 1)", allOfUnlikeOnes(card) / divisor);
             }
         }
+    }
+
+    private static void likelyRefused() {
+        doc.sentence(11, "Long.MIN_VALUE: BAD.");
         for (int part = 0; part <= 1; part++) {
             cardsAndPeopleRefused("likely", ", " + part, NONE);
         }
@@ -394,12 +395,9 @@ public final class ThoughtTest {
             doc.due(x, "evenings(7, " + n + ")", (1 << Math.min(n, 7) + 1) - 1);
             doc.due(x, "evenings(0, " + n + ")", 0);
         }
-        for (String n : new String[] {"-1", "10", "MIN", "MAX"}) {
-            doc.refused(x, "evenings(7, " + n + ")", -1);
-        }
-        for (String secret : new String[] {"-1", "8", "MIN", "MAX"}) {
-            doc.refused(x, "evenings(" + secret + ", 0)", -1);
-        }
+        doc.sentence(0, "who KNOWS a SECRET behind n (0 .. 9) of them (bits); behind how many one KNOWS it first (NOT).");
+        doc.refusedEach(x, "evenings(7, #)", -1, "-1", "10", "MIN", "MAX");
+        doc.refusedEach(x, "evenings(#, 0)", -1, "-1", "8", "MIN", "MAX");
         doc.due(new CardUnsigned(), "evenings(7, 9)", 0);
     }
 
@@ -435,12 +433,8 @@ public final class ThoughtTest {
         }
         x.mend(6, 4, 0);
         doc.due(x, "hears(7, 7)", -2);
-        for (String one : new String[] {"-1", "8", "MIN", "MAX"}) {
-            doc.refused(x, "hears(7, " + one + ")", -1);
-        }
-        for (String secret : new String[] {"-1", "8", "MIN", "MAX"}) {
-            doc.refused(x, "hears(" + secret + ", 0)", -1);
-        }
+        doc.refusedEach(x, "hears(7, #)", -1, "-1", "8", "MIN", "MAX");
+        doc.refusedEach(x, "hears(#, 0)", -1, "-1", "8", "MIN", "MAX");
         doc.refused(new CardUnsigned(), "hears(0, 0)", -1);
         doc.refused(Given.office(7), "hears(0, 7)", -1);
     }
@@ -768,7 +762,8 @@ public final class ThoughtTest {
     }
 
     private static void writeOfLikeOnes() {
-        doc.sentence(0, "and STAMP (of like ones the least;");
+        doc.sentence(0, "that by which it is LIKELIEST (the greatest fraction), least likely (the least) for it: "
+            + "100 times SECRET and 1, 10 times SHOWN and 1, and STAMP (of like ones the least;");
         CardUnsigned x = Given.office(3);
         x.mend(1, 5, 129);
         Given.law(x, "7");
@@ -790,11 +785,6 @@ public final class ThoughtTest {
         doc.sentence(0, "a way by which it COUNTS for nobody is none)");
         CardUnsigned x = Given.office(3);
         Given.law(x, "m*s");
-        for (int how = 0; how <= 1; how++) {
-            doc.due(x, "write(10, 50, " + how + ")", -2);
-            doc.due(x, "written(10, 50, " + 10 * how + ")", 0);
-            doc.due(x, "written(10, 50, " + (10 * how + 1) + ")", 1);
-        }
         x.mend(2, 3, 1);
         for (int how = 0; how <= 1; how++) {
             doc.due(x, "write(10, 50, " + how + ")", 1);
@@ -805,15 +795,24 @@ public final class ThoughtTest {
         }
     }
 
+    private static void writeNot() {
+        doc.sentence(0, "NOT: (LIKELIEST, least likely alike) none COUNTS for anybody.");
+        CardUnsigned x = Given.office(3);
+        for (String text : new String[] {"0", "-5", "m*s", "l"}) {
+            Given.law(x, text);
+            for (int how = 0; how <= 1; how++) {
+                doc.due(x, "write(10, 50, " + how + ")", -2);
+                doc.due(x, "written(10, 50, " + 10 * how + ")", 0);
+                doc.due(x, "written(10, 50, " + (10 * how + 1) + ")", 1);
+            }
+        }
+    }
+
     private static void writeRefused() {
         doc.sentence(22, "(ft: 10 times who writes and whom TO, unlike) so as to be LIKELIEST (how 0), least likely (1): the way. BAD; NOT.");
         CardUnsigned x = Given.fullOffice();
-        for (String ft : new String[] {"-1", "-10", "0", "11", "77", "8", "9", "80", "87", "100", "MIN", "MAX"}) {
-            doc.refused(x, "write(" + ft + ", 50, 0)", -1);
-        }
-        for (String minute : new String[] {"-1", "100", "MIN", "MAX"}) {
-            doc.refused(x, "write(10, " + minute + ", 1)", -1);
-        }
+        doc.refusedEach(x, "write(#, 50, 0)", -1, "-1", "-10", "0", "11", "77", "8", "9", "80", "87", "100", "MIN", "MAX");
+        doc.refusedEach(x, "write(10, #, 1)", -1, "-1", "100", "MIN", "MAX");
         choicesRefused("write(10, 50, ", -1);
         doc.refused(new CardUnsigned(), "write(10, 0, 0)", -1);
         doc.refused(Given.office(1), "write(10, 0, 0)", -1);
@@ -822,6 +821,21 @@ public final class ThoughtTest {
         Given.law(x, "0");
         doc.refused(x, "write(70, 0, 0)", -2);
         doc.refused(x, "write(70, 0, 1)", -2);
+    }
+
+    private static void writeInLowestTerms() {
+        doc.sentence(0, "as a fraction in lowest terms;");
+        CardUnsigned x = Given.office(8);
+        Given.law(x, "h=2?99;h=1?0;33");
+        doc.due(x, "write(10, 50, 0)", 20);
+        doc.due(x, "written(10, 50, 0)", 3);
+        doc.due(x, "written(10, 50, 1)", 11);
+        doc.due(x, "write(10, 50, 1)", 30);
+        doc.due(x, "written(10, 50, 10)", 1);
+        doc.due(x, "written(10, 50, 11)", 11);
+        Given.law(x, "h=2?0;h=1?0;33");
+        doc.due(x, "written(10, 50, 10)", 0);
+        doc.due(x, "written(10, 50, 11)", 1);
     }
 
     private static void written() {
@@ -833,15 +847,9 @@ public final class ThoughtTest {
                 doc.due(x, "written(10, 50, " + (10 * how + part) + ")", due[2 * how + part]);
             }
         }
-        for (String hp : new String[] {"-1", "2", "9", "12", "20", "21", "100", "MIN", "MAX"}) {
-            doc.refused(x, "written(10, 50, " + hp + ")", NONE);
-        }
-        for (String ft : new String[] {"-1", "0", "11", "3", "30", "MIN", "MAX"}) {
-            doc.refused(x, "written(" + ft + ", 50, 0)", NONE);
-        }
-        for (String minute : new String[] {"-1", "100", "MIN", "MAX"}) {
-            doc.refused(x, "written(10, " + minute + ", 0)", NONE);
-        }
+        doc.refusedEach(x, "written(10, 50, #)", NONE, "-1", "2", "9", "12", "20", "21", "100", "MIN", "MAX");
+        doc.refusedEach(x, "written(#, 50, 0)", NONE, "-1", "0", "11", "3", "30", "MIN", "MAX");
+        doc.refusedEach(x, "written(10, #, 0)", NONE, "-1", "100", "MIN", "MAX");
         Given.law(x, "0");
         for (int how = 0; how <= 1; how++) {
             doc.refused(x, "written(10, 50, " + 10 * how + ")", 0);
