@@ -23,9 +23,11 @@ public final class LanguageTest {
         + "put(int,int,long) element(int,int)L shift(int,int,int,int,int) taken(int,int) count(int)";
 
     public static void main(String[] args) throws IOException {
+        String source = Files.readString(Path.of("src/main/java/CardUnsigned.java"));
         face();
+        faceAsInTheDocument(source, Files.readString(Path.of("../shared/DOC.md")));
         classesInside();
-        source(Files.readString(Path.of("src/main/java/CardUnsigned.java")));
+        source(source);
         room();
         check.end();
     }
@@ -48,6 +50,18 @@ public final class LanguageTest {
         check.due(0, "FULL", CardUnsigned.FULL, -3);
         check.due(0, "STATE", CardUnsigned.STATE, -5);
         check.due(0, "VOID", CardUnsigned.VOID, -2000000000);
+    }
+
+    private static void faceAsInTheDocument(String source, String document) {
+        int begin = document.indexOf("public final class CardUnsigned {");
+        int end = document.indexOf("\n}", begin);
+        check.holds(0, "the document has a face", begin >= 0 && end > begin);
+        String[] lines = document.substring(Math.max(begin, 0), Math.max(end, 0)).split("\n");
+        check.due(0, "lines of the face", lines.length, 1 + 1 + 1 + FACE.split(" ").length);
+        for (String line : lines) {
+            String inSource = line.endsWith(");") ? line.replace(");", ") {") : line;
+            check.holds(0, "the source has " + line.strip(), source.contains(inSource));
+        }
     }
 
     private static void classesInside() {
